@@ -46,6 +46,7 @@ public final class ToupeeWind {
     private final Town town = new Town();
     private final Pad pad = new Pad();
     private final Sights sights = new Sights();
+    /** What was not kept is null. */
     private final Image[] images = new Image[IMAGES];
     private final Trial trial = new Trial();
     private final Passage passage = new Passage();
@@ -56,9 +57,6 @@ public final class ToupeeWind {
     private final Wind forecast = new Wind();
 
     public ToupeeWind() {
-        for (int n = 0; n < IMAGES; n++) {
-            images[n] = new Image();
-        }
     }
 
     // ---- 1 walkers, the wind, days
@@ -298,7 +296,11 @@ public final class ToupeeWind {
         if (!within(n, 0, IMAGES - 1)) {
             return OUTSIDE;
         }
-        images[n].keep(town, sights);
+        if (images[n] == null) {
+            images[n] = new Image();
+        }
+        images[n].town.become(town);
+        images[n].sights.become(sights);
         return 1;
     }
 
@@ -306,7 +308,7 @@ public final class ToupeeWind {
         if (!within(n, 0, IMAGES - 1)) {
             return OUTSIDE;
         }
-        if (!images[n].kept) {
+        if (images[n] == null) {
             return STATE;
         }
         town.become(images[n].town);
@@ -1149,12 +1151,5 @@ public final class ToupeeWind {
     private static final class Image {
         final Town town = new Town();
         final Sights sights = new Sights();
-        boolean kept = false;
-
-        void keep(Town newTown, Sights newSights) {
-            town.become(newTown);
-            sights.become(newSights);
-            kept = true;
-        }
     }
 }

@@ -114,6 +114,7 @@ public final class ChancesTest {
         e.due("year(0, 9, 0)", x.year(0, 9, 0), 6);
         e.due("year(0, 9, 1)", x.year(0, 9, 1), 0);
         e.due("year(0, 9, 2)", x.year(0, 9, 2), 2);
+        e.holds("the greatest seed and the most acts", x.year(9999, 99, 2) >= 0);
         e.due("told(7)", x.told(7), 0);
         e.due("told(4)", x.told(4), 0);
         x.say('.');

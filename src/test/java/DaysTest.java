@@ -9,6 +9,7 @@ public final class DaysTest {
         hush(e);
         lossesAreCounted(e);
         doneOrNot(e);
+        lastHour(e);
         e.end();
     }
 
@@ -239,5 +240,22 @@ public final class DaysTest {
         e.due("told(7)", x.told(7), 7);
         e.due("losses are of the text alone", x.then(6), 0);
         e.due("then(0)", x.then(0), 2);
+    }
+
+    /** It takes more calls than an object is promised for; this one is not less careful behind them. */
+    private static void lastHour(Expect e) {
+        ToupeeWind x = new ToupeeWind();
+        String fifty = ".".repeat(50);
+        for (int n = 0; n < 15; n++) {
+            e.due("fifty hours", Expect.text(x, fifty).done(), 50);
+        }
+        Expect.text(x, fifty);
+        e.due("the last one can not be: judge(0)", x.judge(0), 49);
+        e.due("the last one can not be: judge(1)", x.judge(1), 9);
+        e.due("done()", Expect.text(x, fifty.substring(1)).done(), 49);
+        e.due("the hour", x.told(4), 7);
+        e.due("the day", x.told(5), 99);
+        judged(e, x, ".", 0, 9);
+        e.holds("a year leaves its hours out", x.year(0, 99, 1) >= 0);
     }
 }

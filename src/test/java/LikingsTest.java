@@ -1,5 +1,6 @@
 import java.util.ArrayList;
 import java.util.List;
+import java.util.Random;
 
 /** Promises 17 to 20: sights, likings that fit them, what to try next. */
 public final class LikingsTest {
@@ -70,18 +71,18 @@ public final class LikingsTest {
     }
 
     private static void againstAll(Expect e) {
+        Random r = new Random(20);
         for (int sample = 0; sample < 150; sample++) {
             ToupeeWind x = new ToupeeWind();
             List<Integer> fits = new ArrayList<>();
             for (int code = 0; code < 64; code++) {
                 fits.add(100 * (code / 16) + 10 * (code / 4 % 4) + code % 4);
             }
-            int r = sample * 69621 + 3;
+            int liked = 100 * r.nextInt(4) + 10 * r.nextInt(4) + r.nextInt(4);
             for (int n = 1; n <= 8; n++) {
-                r = r * 1103515245 + 12345;
-                int tried = 1000 * ((r >>> 8) % 9 + 1) + 100 * (r >>> 28 & 3) + 10 * (r >>> 26 & 3) + (r >>> 24 & 3);
+                int tried = 1000 * (r.nextInt(9) + 1) + 100 * r.nextInt(4) + 10 * r.nextInt(4) + r.nextInt(4);
                 // Mostly as one liking would have it, so that some are left; at times as it comes.
-                boolean enough = n % 4 == 0 ? (r >>> 20 & 1) == 0 : enough(sample * 37 % 334, tried);
+                boolean enough = n == 8 ? r.nextBoolean() : enough(liked, tried);
                 fits.removeIf(liking -> enough(liking, tried) != enough);
                 e.due("seen", x.seen(tried / 1000, tried / 100 % 10, tried / 10 % 10, tried % 10, enough), n);
                 compare(e, "sample " + sample + " sight " + n + ": ", x, fits);

@@ -1,3 +1,5 @@
+import java.util.Random;
+
 /** Promises 13 to 16: when it blows where, passes, arms, payments. */
 public final class PassesTest {
     public static void main(String[] args) {
@@ -144,15 +146,14 @@ public final class PassesTest {
     }
 
     private static void armsAgainstEveryChoice(Expect e) {
-        for (int sample = 0; sample < 400; sample++) {
+        Random r = new Random(15);
+        for (int sample = 0; sample < 2000; sample++) {
             ToupeeWind x = new ToupeeWind();
             int[] cell = new int[6];
             boolean[] peace = new boolean[6];
-            int x0 = sample * 7919 + 13;
             for (int w = 0; w < 6; w++) {
-                x0 = x0 * 1103515245 + 12345;
-                cell[w] = (x0 >>> 16) % 12;
-                peace[w] = (x0 >>> 8 & 1) == 0;
+                cell[w] = r.nextInt(12);
+                peace[w] = r.nextBoolean();
                 x.walker(w, cell[w], peace[w] ? 1 : 254, 0);
             }
             for (int d = 0; d < 12; d++) {
@@ -191,6 +192,10 @@ public final class PassesTest {
         x.walker(0, 0, 0, 7);
         e.due("too little: paid(0, 0)", x.paid(0, 0), -6);
         e.due("too little: paid(0, 1)", x.paid(0, 1), -6);
+        x.purse(0, 9, 9, 9);
+        x.likes(0, 0, 0);
+        e.due("it likes none: paid(0, 0)", x.paid(0, 0), -6);
+        x.purse(0, 2, 2, 2);
         x.likes(1, 2, 1);
         e.due("paid(0, 0)", x.paid(0, 0), 5);
         e.due("paid(0, 1)", x.paid(0, 1), 122);
@@ -200,14 +205,13 @@ public final class PassesTest {
     }
 
     private static void paidAgainstEveryPurse(Expect e) {
-        for (int sample = 0; sample < 2000; sample++) {
+        Random r = new Random(16);
+        for (int sample = 0; sample < 6000; sample++) {
             ToupeeWind x = new ToupeeWind();
-            int r = sample * 48271 + 11;
             int[] n = new int[7];
             int[] limits = {10, 10, 10, 4, 4, 4, 10};
             for (int at = 0; at < 7; at++) {
-                r = r * 1103515245 + 12345;
-                n[at] = (r >>> 16) % limits[at];
+                n[at] = r.nextInt(limits[at]);
             }
             x.purse(1, n[0], n[1], n[2]);
             x.likes(n[3], n[4], n[5]);
