@@ -2,12 +2,18 @@
 final class Expect {
     private int wrong = 0;
     private int calls = 0;
+    private String where = "";
+
+    /** What stands ahead of each wrong answer that is told from here on. */
+    void about(String place) {
+        where = place;
+    }
 
     void due(String call, long got, long want) {
         calls++;
         if (got != want) {
             wrong++;
-            System.out.println(call + " answered " + got + ", due is " + want);
+            System.out.println(where + call + " answered " + got + ", due is " + want);
         }
     }
 
@@ -15,8 +21,12 @@ final class Expect {
         calls++;
         if (!so) {
             wrong++;
-            System.out.println("not so: " + what);
+            System.out.println(where + "not so: " + what);
         }
+    }
+
+    int calls() {
+        return calls;
     }
 
     /** Writes a text on the pad in place of what is there. */
