@@ -26,7 +26,7 @@ final class ActsEdges {
 
     private static void deeds(Sentences s) {
         String go = "> or < (he goes to the CELL above, below, and whom he HOLDS with him),";
-        s.test("Section 1", go, "both to the last cell, both to the first; who is not held stays", e -> {
+        s.test("Section 1, promise 11", go, "both to the last cell, both to the first; who is not held stays", e -> {
             ToupeeWind x = new ToupeeWind();
             x.walker(0, 10, 0, 0);
             x.walker(1, 10, 0, 0);
@@ -44,7 +44,7 @@ final class ActsEdges {
             e.due("E", x.behind(4, 0), 1);
         });
         String state = "a digit 0 to 7 (he has STATED that hour, or, if he had, has no more),";
-        s.test("Section 1", state, "stated, stated twice, stated before; the others stay", e -> {
+        s.test("Section 1, promise 11", state, "stated, stated twice, stated before; the others stay", e -> {
             ToupeeWind x = new ToupeeWind();
             for (int hour = 0; hour < 8; hour++) {
                 String act = "C" + hour;
@@ -55,14 +55,14 @@ final class ActsEdges {
                 e.due(act + " of all", Expect.text(x, act).behind(2, 1), 255 - (1 << hour));
             }
         });
-        s.test("Section 1", "^ (his TOUPEE is ON),", "it was off; another one's stays off", e -> {
+        s.test("Section 1, promise 11", "^ (his TOUPEE is ON),", "it was off; another one's stays off", e -> {
             ToupeeWind x = new ToupeeWind();
             x.walker(2, 1, 0, 0);
             Expect.text(x, ".B>B^");
             e.due("B's", x.behind(1, 4), NONE);
             e.due("C's", x.behind(2, 4), 2);
         });
-        s.test("Section 1", "& and a WALKER's letter (he HOLDS that one), or | (he HOLDS nobody);",
+        s.test("Section 1, promise 11", "& and a WALKER's letter (he HOLDS that one), or | (he HOLDS nobody);",
             "the first, the last, nobody", e -> {
             ToupeeWind x = new ToupeeWind();
             x.walker(5, 0, 0, 0);
@@ -73,7 +73,7 @@ final class ActsEdges {
             e.due("nobody", Expect.text(x, "A&FA|").behind(0, 3), NONE);
             e.due("again", Expect.text(x, "A&FA|A&F").behind(0, 3), 5);
         });
-        s.test("Section 1", "! (a gale: the FORCE is 1 more);", "from 1 to 9", e -> {
+        s.test("Section 1, promise 12", "! (a gale: the FORCE is 1 more);", "from 1 to 9", e -> {
             ToupeeWind x = new ToupeeWind();
             for (int gales = 0; gales <= 8; gales++) {
                 e.due(gales + " gales", Expect.text(x, "!".repeat(gales)).then(2), 1 + gales);
@@ -86,7 +86,7 @@ final class ActsEdges {
     private static void payments(Sentences s) {
         String pay = "g, f, or s (he pays a GATE, a FLAG, a SHEET: he has one fewer, and OWES as much less as"
             + " THE WIND LIKES it by, 0 at least),";
-        s.test("Section 1", pay, "each by its own liking, of its own goods", e -> {
+        s.test("Section 1, promise 11", pay, "each by its own liking, of its own goods", e -> {
             ToupeeWind x = new ToupeeWind();
             x.likes(1, 2, 3);
             x.walker(0, 0, 0, 9);
@@ -99,7 +99,7 @@ final class ActsEdges {
                 e.due("another one's", x.behind(1, 5 + kind), 2);
             }
         });
-        s.test("Section 1", pay, "0 at least", e -> {
+        s.test("Section 1, promise 11", pay, "0 at least", e -> {
             ToupeeWind x = new ToupeeWind();
             x.likes(3, 3, 3);
             for (int owes = 1; owes <= 4; owes++) {
@@ -107,7 +107,7 @@ final class ActsEdges {
                 e.due("3 of " + owes, Expect.text(x, "Af").behind(0, 2), owes < 3 ? 0 : owes - 3);
             }
         });
-        s.test("Section 1", pay, "what it likes by 0 is paid for nothing", e -> {
+        s.test("Section 1, promise 11", pay, "what it likes by 0 is paid for nothing", e -> {
             ToupeeWind x = new ToupeeWind();
             x.likes(0, 0, 0);
             x.walker(0, 0, 0, 9);
@@ -115,7 +115,7 @@ final class ActsEdges {
             e.due("owed", x.behind(0, 2), 9);
             e.due("sheets", x.behind(0, 7), 0);
         });
-        s.test("Section 1", pay, "the last one of nine", e -> {
+        s.test("Section 1, promise 11", pay, "the last one of nine", e -> {
             ToupeeWind x = new ToupeeWind();
             x.purse(3, 9, 9, 9);
             x.walker(3, 3, 0, 9);
@@ -127,7 +127,7 @@ final class ActsEdges {
 
     private static void hours(Sentences s) {
         String next = "An hour: it is the next one (0 of the next day behind 7:";
-        s.test("Section 1", next, "each hour of two days", e -> {
+        s.test("Section 1, promises 11, 12", next, "each hour of two days", e -> {
             ToupeeWind x = new ToupeeWind();
             for (int hour = 0; hour < 17; hour++) {
                 Expect.text(x, ".".repeat(hour));
@@ -136,7 +136,7 @@ final class ActsEdges {
             }
         });
         String owe = "then each OWES more by half of how many HOURS he has STATED, cut, 9 at most).";
-        s.test("Section 1", owe, "none to eight hours stated, cut", e -> {
+        s.test("Section 1, promises 11, 12", owe, "none to eight hours stated, cut", e -> {
             ToupeeWind x = new ToupeeWind();
             Expect.text(x, ".......").done();
             Expect.text(x, ".");
@@ -145,7 +145,7 @@ final class ActsEdges {
                 e.due(stated + " stated", x.behind(stated % 6, 2), stated / 2);
             }
         });
-        s.test("Section 1", owe, "9 at most", e -> {
+        s.test("Section 1, promises 11, 12", owe, "9 at most", e -> {
             ToupeeWind x = new ToupeeWind();
             Expect.text(x, ".......").done();
             Expect.text(x, ".");
@@ -154,7 +154,7 @@ final class ActsEdges {
                 e.due(owes + " and 4", x.behind(1, 2), owes <= 5 ? owes + 4 : 9);
             }
         });
-        s.test("Section 1", owe, "each of them, behind hour 7 alone", e -> {
+        s.test("Section 1, promises 11, 12", owe, "each of them, behind hour 7 alone", e -> {
             ToupeeWind x = new ToupeeWind();
             for (int walker = 0; walker < 6; walker++) {
                 x.walker(walker, walker, 1 << walker | 1 << 7, 1);
@@ -172,7 +172,7 @@ final class ActsEdges {
             Expect.text(x, ".".repeat(16));
             e.due("behind sixteen hours", x.behind(5, 2), 3);
         });
-        s.test("Section 1", owe, "ahead of the wind: who owes 4 by it is not hushed in that hour", e -> {
+        s.test("Section 1, promises 11, 12", owe, "ahead of the wind: who owes 4 by it is not hushed in that hour", e -> {
             ToupeeWind x = new ToupeeWind();
             Expect.text(x, ".......").done();
             Expect.text(x, ".");
@@ -182,7 +182,7 @@ final class ActsEdges {
             x.walker(0, 6, 3, 3);
             e.due("owing 4 by then, he has it off", x.behind(0, 4), 7);
         });
-        s.test("Section 1", next, "it is the next hour ahead of the wind", e -> {
+        s.test("Section 1, promises 11, 12", next, "it is the next hour ahead of the wind", e -> {
             ToupeeWind x = Expect.text(new ToupeeWind(), ".");
             x.walker(1, 1, 1, 0);
             e.due("stated hour 0: he has it off", x.behind(1, 4), 2);
@@ -200,7 +200,7 @@ final class ActsEdges {
 
     private static void theWindGoes(Sentences s) {
         String goes = "Then THE WIND goes FORCE times to the next CELL on its WAY";
-        s.test("Section 1", goes, "once to nine times, up and down", e -> {
+        s.test("Section 1, promise 12", goes, "once to nine times, up and down", e -> {
             ToupeeWind x = Expect.text(new ToupeeWind(), ".");
             for (int force = 1; force <= 9; force++) {
                 x.wind(0, 0, force);
@@ -212,7 +212,7 @@ final class ActsEdges {
             }
         });
         String turns = "(from the last one it turns, and goes to the next one the other WAY);";
-        s.test("Section 1", turns, "on the last one it has not turned yet", e -> {
+        s.test("Section 1, promise 12", turns, "on the last one it has not turned yet", e -> {
             ToupeeWind x = Expect.text(new ToupeeWind(), ".");
             x.wind(10, 0, 1);
             e.due("up to 11", x.then(0), 11);
@@ -221,7 +221,7 @@ final class ActsEdges {
             e.due("down to 0", x.then(0), 0);
             e.due("the way", x.then(1), 1);
         });
-        s.test("Section 1", turns, "from the last one", e -> {
+        s.test("Section 1, promise 12", turns, "from the last one", e -> {
             ToupeeWind x = Expect.text(new ToupeeWind(), ".");
             x.wind(11, 0, 1);
             e.due("from 11, up", x.then(0), 10);
@@ -230,7 +230,7 @@ final class ActsEdges {
             e.due("from 0, down", x.then(0), 1);
             e.due("the way", x.then(1), 0);
         });
-        s.test("Section 1", turns, "within an hour", e -> {
+        s.test("Section 1, promise 12", turns, "within an hour", e -> {
             ToupeeWind x = Expect.text(new ToupeeWind(), ".");
             x.wind(8, 0, 9);
             e.due("from 8, up by 9", x.then(0), 5);
@@ -239,7 +239,7 @@ final class ActsEdges {
             e.due("from 3, down by 9", x.then(0), 6);
             e.due("the way", x.then(1), 0);
         });
-        s.test("Section 1", turns, "there and back in 22 hours", e -> {
+        s.test("Section 1, promise 12", turns, "there and back in 22 hours", e -> {
             ToupeeWind x = new ToupeeWind();
             for (int hour = 1; hour <= 22; hour++) {
                 Expect.text(x, ".").done();
@@ -255,7 +255,7 @@ final class ActsEdges {
     private static void losses(Sentences s) {
         String words = "each time it comes to a CELL, each one there, by number, whose TOUPEE is ON, who is not HUSHED,"
             + " has it OFF:";
-        s.test("Section 1", words, "it does not come to the cell that it goes from", e -> {
+        s.test("Section 1, promises 11, 12", words, "it does not come to the cell that it goes from", e -> {
             ToupeeWind x = Expect.text(new ToupeeWind(), ".");
             e.due("A is there", x.behind(0, 4), NONE);
             e.due("B is where it comes", x.behind(1, 4), 2);
@@ -264,7 +264,7 @@ final class ActsEdges {
             e.due("C is where it comes, too", x.behind(2, 4), 3);
             e.due("D is beyond", x.behind(3, 4), NONE);
         });
-        s.test("Section 1", words, "it comes to a cell again", e -> {
+        s.test("Section 1, promises 11, 12", words, "it comes to a cell again", e -> {
             ToupeeWind x = Expect.text(new ToupeeWind(), ".");
             x.wind(11, 0, 2);
             x.walker(0, 11, 0, 0);
@@ -273,7 +273,7 @@ final class ActsEdges {
             x.wind(10, 0, 2);
             e.due("from 10 by 2, back on 10", x.behind(0, 4), 9);
         });
-        s.test("Section 1", words, "all six on one cell, the first by number", e -> {
+        s.test("Section 1, promises 11, 12", words, "all six on one cell, the first by number", e -> {
             ToupeeWind x = Expect.text(new ToupeeWind(), ".");
             for (int walker = 5; walker >= 0; walker--) {
                 x.walker(walker, 1, 0, 0);
@@ -285,7 +285,7 @@ final class ActsEdges {
             e.due("how many but A and B", x.then(6), 4);
             e.due("who was first", x.then(8), 2);
         });
-        s.test("Section 1", words, "the first cell comes ahead of the first number", e -> {
+        s.test("Section 1, promises 11, 12", words, "the first cell comes ahead of the first number", e -> {
             ToupeeWind x = Expect.text(new ToupeeWind(), ".");
             x.wind(3, 0, 3);
             x.walker(0, 6, 0, 0);
@@ -295,7 +295,7 @@ final class ActsEdges {
             x.wind(7, 1, 3);
             e.due("the other way", x.then(8), 0);
         });
-        s.test("Section 1", words, "one whose is off has none to lose", e -> {
+        s.test("Section 1, promises 11, 12", words, "one whose is off has none to lose", e -> {
             ToupeeWind x = new ToupeeWind();
             x.wind(10, 0, 3);
             x.walker(0, 10, 0, 0);
@@ -312,7 +312,7 @@ final class ActsEdges {
             e.due("B's lies where it lay", x.behind(1, 4), 11);
             e.due("A's lies where it lay", x.behind(0, 4), 9);
         });
-        s.test("Section 1", words, "who is hushed, or held by one at peace, keeps it", e -> {
+        s.test("Section 1, promises 11, 12", words, "who is hushed, or held by one at peace, keeps it", e -> {
             ToupeeWind x = new ToupeeWind();
             x.walker(0, 1, 2, 3);
             x.walker(2, 1, 0, 9);
@@ -327,7 +327,7 @@ final class ActsEdges {
 
     private static void whereItLies(Sentences s) {
         String words = "it lies on the next CELL on the WAY (from the last one: on that one).";
-        s.test("Section 1", words, "each cell, up", e -> {
+        s.test("Section 1, promise 11", words, "each cell, up", e -> {
             ToupeeWind x = Expect.text(new ToupeeWind(), ".");
             for (int cell = 1; cell <= 11; cell++) {
                 x.wind(cell - 1, 0, 1);
@@ -335,7 +335,7 @@ final class ActsEdges {
                 e.due("from " + cell, x.behind(3, 4), cell == 11 ? 11 : cell + 1);
             }
         });
-        s.test("Section 1", words, "each cell, down", e -> {
+        s.test("Section 1, promise 11", words, "each cell, down", e -> {
             ToupeeWind x = Expect.text(new ToupeeWind(), ".");
             for (int cell = 0; cell <= 10; cell++) {
                 x.wind(cell + 1, 1, 1);
@@ -343,7 +343,7 @@ final class ActsEdges {
                 e.due("from " + cell, x.behind(3, 4), cell == 0 ? 0 : cell - 1);
             }
         });
-        s.test("Section 1", words, "where it has turned", e -> {
+        s.test("Section 1, promise 11", words, "where it has turned", e -> {
             ToupeeWind x = Expect.text(new ToupeeWind(), ".");
             x.wind(11, 0, 1);
             x.walker(3, 10, 0, 0);
@@ -367,7 +367,7 @@ final class ActsEdges {
 
     private static void heldOnes(Sentences s) {
         String words = "An ACT can not be for the least of these reasons: 1 he is HELD (>, <, ^, &);";
-        s.test("Section 1", words, "each of the four, that could be else", e -> {
+        s.test("Section 1, promise 9", words, "each of the four, that could be else", e -> {
             ToupeeWind x = heldOnCell(5);
             judged(e, x, "A&BB>", 1, 1);
             judged(e, x, "A&BB<", 1, 1);
@@ -378,7 +378,7 @@ final class ActsEdges {
             judged(e, x, ".A&BB^", 2, 1);
             judged(e, x, ".A&BA|B^", NONE, NONE);
         });
-        s.test("Section 1", words, "1 comes ahead of 2, of 6, of 7", e -> {
+        s.test("Section 1, promise 9", words, "1 comes ahead of 2, of 6, of 7", e -> {
             judged(e, heldOnCell(11), "A&BB>", 1, 1);
             judged(e, heldOnCell(0), "A&BB<", 1, 1);
             judged(e, heldOnCell(5), "A&BB^", 1, 1);
@@ -386,13 +386,13 @@ final class ActsEdges {
             judged(e, heldOnCell(5), "A&BB&A", 1, 1);
             judged(e, heldOnCell(5), "A&BB&F", 1, 1);
         });
-        s.test("Section 1", words, "a held one may state and pay; his letting go is no matter of 1", e -> {
+        s.test("Section 1, promise 9", words, "a held one may state and pay; his letting go is no matter of 1", e -> {
             ToupeeWind x = heldOnCell(5);
             x.walker(1, 5, 0, 3);
             judged(e, x, "A&BB0B7BgBfBs", NONE, NONE);
             judged(e, x, "A&BB|", 1, 8);
         });
-        s.test("Section 1", words, "he who holds is not held", e -> {
+        s.test("Section 1, promise 9", words, "he who holds is not held", e -> {
             ToupeeWind x = heldOnCell(5);
             judged(e, x, "A&BA>A<", NONE, NONE);
             x = heldOnCell(11);
@@ -402,7 +402,7 @@ final class ActsEdges {
     }
 
     private static void reasonsTwoToFive(Sentences s) {
-        s.test("Section 1", "2 there is no such CELL (>, <);", "at both ends, alone and holding one", e -> {
+        s.test("Section 1, promise 9", "2 there is no such CELL (>, <);", "at both ends, alone and holding one", e -> {
             judged(e, heldOnCell(11), "A>", 0, 2);
             judged(e, heldOnCell(11), "A&BA>", 1, 2);
             judged(e, heldOnCell(10), "A>A>", 1, 2);
@@ -410,7 +410,7 @@ final class ActsEdges {
             judged(e, heldOnCell(0), "A&BA<", 1, 2);
             judged(e, heldOnCell(1), "A<A<", 1, 2);
         });
-        s.test("Section 1", "3 he OWES 4 or more (a digit);", "3, 4 and 9 owed, stated before or not", e -> {
+        s.test("Section 1, promise 9", "3 he OWES 4 or more (a digit);", "3, 4 and 9 owed, stated before or not", e -> {
             ToupeeWind x = new ToupeeWind();
             for (int owes = 0; owes <= 9; owes++) {
                 x.walker(0, 0, 1, owes);
@@ -420,7 +420,7 @@ final class ActsEdges {
             x.walker(0, 0, 1, 4);
             judged(e, x, "AgA0", NONE, NONE);
         });
-        s.test("Section 1", "4 he has none of these (g, f, s);", "none of one kind, and of a kind that is spent", e -> {
+        s.test("Section 1, promise 9", "4 he has none of these (g, f, s);", "none of one kind, and of a kind that is spent", e -> {
             ToupeeWind x = new ToupeeWind();
             x.walker(0, 0, 0, 9);
             for (int kind = 0; kind < 3; kind++) {
@@ -434,14 +434,14 @@ final class ActsEdges {
                 }
             }
         });
-        s.test("Section 1", "4 he has none of these (g, f, s);", "4 comes ahead of 5", e -> {
+        s.test("Section 1, promise 9", "4 he has none of these (g, f, s);", "4 comes ahead of 5", e -> {
             ToupeeWind x = new ToupeeWind();
             x.purse(0, 0, 0, 0);
             judged(e, x, "Ag", 0, 4);
             judged(e, x, "Af", 0, 4);
             judged(e, x, "As", 0, 4);
         });
-        s.test("Section 1", "5 he OWES nothing (g, f, s);", "0 and 1 owed, and when all is paid", e -> {
+        s.test("Section 1, promise 9", "5 he OWES nothing (g, f, s);", "0 and 1 owed, and when all is paid", e -> {
             ToupeeWind x = new ToupeeWind();
             judged(e, x, "Ag", 0, 5);
             judged(e, x, "Af", 0, 5);
@@ -454,7 +454,7 @@ final class ActsEdges {
     }
 
     private static void reasonsSixToEight(Sentences s) {
-        s.test("Section 1", "6 his TOUPEE is ON, or lies on another CELL (^);", "on; one cell off; on his; beyond; on again", e -> {
+        s.test("Section 1, promise 9", "6 his TOUPEE is ON, or lies on another CELL (^);", "on; one cell off; on his; beyond; on again", e -> {
             ToupeeWind x = new ToupeeWind();
             judged(e, x, "B^", 0, 6);
             judged(e, x, ".B^", 1, 6);
@@ -465,28 +465,28 @@ final class ActsEdges {
             judged(e, x, ".A^A^", 2, 6);
         });
         String seven = "7 both are one, or on unlike CELLS, he HOLDS one already, or the other one is HELD, or HOLDS one (&);";
-        s.test("Section 1", seven, "both are one", e -> {
+        s.test("Section 1, promise 9", seven, "both are one", e -> {
             judged(e, heldOnCell(5), "A&A", 0, 7);
             judged(e, heldOnCell(5), "B&B", 0, 7);
         });
-        s.test("Section 1", seven, "on unlike cells, one off, up and down", e -> {
+        s.test("Section 1, promise 9", seven, "on unlike cells, one off, up and down", e -> {
             judged(e, heldOnCell(5), "A>A&B", 1, 7);
             judged(e, heldOnCell(5), "A<A&B", 1, 7);
             judged(e, heldOnCell(5), "A<A>A&B", NONE, NONE);
         });
-        s.test("Section 1", seven, "he holds one already, another one or the same", e -> {
+        s.test("Section 1, promise 9", seven, "he holds one already, another one or the same", e -> {
             judged(e, heldOnCell(5), "A&BA&C", 1, 7);
             judged(e, heldOnCell(5), "A&BA|A&C", NONE, NONE);
         });
-        s.test("Section 1", seven, "the other one is held", e -> {
+        s.test("Section 1, promise 9", seven, "the other one is held", e -> {
             judged(e, heldOnCell(5), "A&BC&B", 1, 7);
             judged(e, heldOnCell(5), "A&BA|C&B", NONE, NONE);
         });
-        s.test("Section 1", seven, "the other one holds one", e -> {
+        s.test("Section 1, promise 9", seven, "the other one holds one", e -> {
             judged(e, heldOnCell(5), "A&BC&A", 1, 7);
             judged(e, heldOnCell(5), "A&BA|C&A", NONE, NONE);
         });
-        s.test("Section 1", "8 he HOLDS nobody (|);", "at first, and behind letting go", e -> {
+        s.test("Section 1, promise 9", "8 he HOLDS nobody (|);", "at first, and behind letting go", e -> {
             judged(e, heldOnCell(5), "A|", 0, 8);
             judged(e, heldOnCell(5), "A&BA|", NONE, NONE);
             judged(e, heldOnCell(5), "A&BA|A|", 2, 8);
@@ -496,7 +496,7 @@ final class ActsEdges {
 
     private static void reasonNine(Sentences s) {
         String words = "9 the FORCE is 9 (!), it is hour 7 of day 99 (.).";
-        s.test("Section 1", words, "the force is 8, is 9", e -> {
+        s.test("Section 1, promise 9", words, "the force is 8, is 9", e -> {
             ToupeeWind x = new ToupeeWind();
             x.wind(0, 0, 8);
             judged(e, x, "!", NONE, NONE);
@@ -506,7 +506,7 @@ final class ActsEdges {
             judged(e, x, ".", NONE, NONE);
         });
         // It takes more calls than an object is promised for; this one is not less careful behind them.
-        s.test("Section 1", words, "hour 6 and hour 7 of day 99, hour 7 of day 98", e -> {
+        s.test("Section 1, promise 9", words, "hour 6 and hour 7 of day 99, hour 7 of day 98", e -> {
             ToupeeWind x = new ToupeeWind();
             for (int n = 0; n < 15; n++) {
                 Expect.text(x, ".".repeat(50)).done();

@@ -31,13 +31,13 @@ final class ChancesEdges {
     private static void bowls(Sentences s) {
         String words = "BOWLS: of n (0 to 99) two by turns take 1 to 4, but not as many as the other one just took"
             + " (z: 0, nobody did, to 4);";
-        s.test("Section 4", words, "1 to 4: all of 4 can be taken, not all of 5", e -> {
+        s.test("Section 4, promise 21", words, "1 to 4: all of 4 can be taken, not all of 5", e -> {
             bowled(e, 1, 0, 1);
             bowled(e, 3, 0, 3);
             bowled(e, 4, 0, 4);
             bowled(e, 5, 0, NONE);
         });
-        s.test("Section 4", words, "not as many as the other one just took", e -> {
+        s.test("Section 4, promise 21", words, "not as many as the other one just took", e -> {
             bowled(e, 1, 1, NONE);
             bowled(e, 2, 1, 2);
             bowled(e, 2, 2, 1);
@@ -45,20 +45,20 @@ final class ChancesEdges {
             bowled(e, 4, 4, NONE);
             bowled(e, 4, 3, 4);
         });
-        s.test("Section 4", words, "99 of them", e -> {
+        s.test("Section 4, promise 21", words, "99 of them", e -> {
             bowled(e, 99, 4, 2);
             for (int z = 0; z <= 4; z++) {
                 bowled(e, 99, z, take(99, z, new int[100][5]));
             }
         });
-        s.test("Section 4", "who can not has lost:", "none is there; one is, and 1 was just taken", e -> {
+        s.test("Section 4, promise 21", "who can not has lost:", "none is there; one is, and 1 was just taken", e -> {
             for (int z = 0; z <= 4; z++) {
                 bowled(e, 0, z, NONE);
             }
             bowled(e, 1, 1, NONE);
             bowled(e, 1, 2, 1);
         });
-        s.test("Section 4", "whether who begins can win (1, 0); how many he takes first for it, the least (NONE).",
+        s.test("Section 4, promise 21", "whether who begins can win (1, 0); how many he takes first for it, the least (NONE).",
             "the least of two that win", e -> {
             bowled(e, 2, 0, 1);
             bowled(e, 2, 3, 1);
@@ -80,7 +80,7 @@ final class ChancesEdges {
     private static void gale(Sentences s) {
         String words = "GALE: THE WIND is on any CELL, with any WAY, with any FORCE 1 to 9, each as likely:"
             + " that it comes to a CELL in an hour;";
-        s.test("Section 4", words, "the first cell, the last one, the middle ones", e -> {
+        s.test("Section 4, promise 22", words, "the first cell, the last one, the middle ones", e -> {
             ToupeeWind x = new ToupeeWind();
             // To 0: down from 1 to 9 by as many or more, and up from 11, 10, .. never; down from 0 it turns.
             e.due("gale(0, 0, 0)", x.gale(0, 0, 0), 5);
@@ -90,7 +90,7 @@ final class ChancesEdges {
             e.due("gale(5, 0, 0)", x.gale(5, 0, 0), 11);
             e.due("gale(6, 0, 0)", x.gale(6, 0, 0), 11);
         });
-        s.test("Section 4", words, "what it is now is no matter", e -> {
+        s.test("Section 4, promise 22", words, "what it is now is no matter", e -> {
             ToupeeWind x = new ToupeeWind();
             x.wind(11, 1, 9);
             e.due("gale(0, 0, 0)", x.gale(0, 0, 0), 5);
@@ -98,7 +98,7 @@ final class ChancesEdges {
             Twins.untouched(e, Twins::lively, "gale(3, 0, 0)", y -> y.gale(3, 0, 0));
         });
         String mean = "to how many CELLS it comes in the mean (the CELL is no matter, but as told).";
-        s.test("Section 4", mean, "each cell, the same; no cell that there is not", e -> {
+        s.test("Section 4, promise 22", mean, "each cell, the same; no cell that there is not", e -> {
             ToupeeWind x = new ToupeeWind();
             for (int cell = 0; cell < 12; cell++) {
                 e.due("gale(" + cell + ", 1, 0)", x.gale(cell, 1, 0), 245);
@@ -168,7 +168,7 @@ final class ChancesEdges {
 
     private static void yearOf(Sentences s) {
         String words = "A YEAR by a seed (0 to 9999) of m ACTS (1 to 99), from all as it is:";
-        s.test("Section 4", words, "the least and the greatest seed, one act, 98 and 99", e -> {
+        s.test("Section 4, promise 23", words, "the least and the greatest seed, one act, 98 and 99", e -> {
             ToupeeWind x = new ToupeeWind();
             for (int seed : new int[] {0, 1, 77, 9998, 9999}) {
                 for (int m : new int[] {1, 2, 98, 99}) {
@@ -176,21 +176,21 @@ final class ChancesEdges {
                 }
             }
         });
-        s.test("Section 4", words, "one act is one, an hour ahead of which nothing was lost", e -> {
+        s.test("Section 4, promise 23", words, "one act is one, an hour ahead of which nothing was lost", e -> {
             ToupeeWind x = new ToupeeWind();
             int seed = seed(is("."), is("."), is("."));
             for (int m = 1; m <= 3; m++) {
                 e.due("m = " + m, x.year(seed, m, 2), m);
             }
         });
-        s.test("Section 4", words, "from all as it is, not as it was at first", e -> {
+        s.test("Section 4, promise 23", words, "from all as it is, not as it was at first", e -> {
             ToupeeWind x = new ToupeeWind();
             Expect.text(x, "..").done();
             int seed = seed(is("."));
             e.due("off", x.year(seed, 1, 0), 2 | 4 | 8);
             e.due("how many", x.year(seed, 1, 2), 1);
         });
-        s.test("Section 4", "x becomes (75 x and 74) left over by 65537;", "seeds by which it goes round, and not", e -> {
+        s.test("Section 4, promise 23", "x becomes (75 x and 74) left over by 65537;", "seeds by which it goes round, and not", e -> {
             // 75 times 872, and 74, are 65474; 873 goes round to 12.
             e.due("872", next(872), 65474);
             e.due("873", next(873), 12);
@@ -199,7 +199,7 @@ final class ChancesEdges {
             }
         });
         String drawn = "of WALKER x left over by 6, by x by 6 (cut) left over by 8, z being x by 48 (cut):";
-        s.test("Section 4", drawn, "every walker draws every kind", e -> {
+        s.test("Section 4, promise 23", drawn, "every walker draws every kind", e -> {
             for (int n = 0; n < 48; n++) {
                 int want = n;
                 int seed = seed(x -> x % 48 == want);
@@ -230,7 +230,7 @@ final class ChancesEdges {
     }
 
     private static void yearWalks(Sentences s) {
-        s.test("Section 4", "0 he goes up, 1 down,", "each walker, into the wind", e -> {
+        s.test("Section 4, promise 23", "0 he goes up, 1 down,", "each walker, into the wind", e -> {
             for (int walker = 0; walker < 6; walker++) {
                 char letter = (char) ('A' + walker);
                 ToupeeWind x = alone(walker, 5, 0, 0);
@@ -242,7 +242,7 @@ final class ChancesEdges {
                 lost(e, x, letter + ">", 0);
             }
         });
-        s.test("Section 4", "each if that can be:", "not beyond the ends: he stays, and the wind comes there", e -> {
+        s.test("Section 4, promise 23", "each if that can be:", "not beyond the ends: he stays, and the wind comes there", e -> {
             for (int walker = 0; walker < 6; walker++) {
                 char letter = (char) ('A' + walker);
                 ToupeeWind x = alone(walker, 11, 0, 0);
@@ -252,7 +252,7 @@ final class ChancesEdges {
                 lost(e, x, letter + "<", 63 - (1 << walker));
             }
         });
-        s.test("Section 4", "each if that can be:", "what can not be is left out, and the next comes", e -> {
+        s.test("Section 4, promise 23", "each if that can be:", "what can not be is left out, and the next comes", e -> {
             ToupeeWind x = new ToupeeWind();
             x.wind(0, 0, 9);
             int seed = seed(is("!"), is("."));
@@ -265,7 +265,7 @@ final class ChancesEdges {
             x.purse(0, 0, 2, 2);
             e.due("no gate: what is owed", x.year(seed, 1, 1), 4);
         });
-        s.test("Section 4", "4 his TOUPEE is ON,", "it lies where he is, or elsewhere, or is on", e -> {
+        s.test("Section 4, promise 23", "4 his TOUPEE is ON,", "it lies where he is, or elsewhere, or is on", e -> {
             for (int walker = 0; walker < 6; walker++) {
                 ToupeeWind x = alone(walker, 11, 0, 0);
                 x.wind(10, 0, 1);
@@ -282,7 +282,7 @@ final class ChancesEdges {
     }
 
     private static void yearStatesAndPays(Sentences s) {
-        s.test("Section 4", "2 he STATES HOUR z left over by 8, or no more,", "each hour, stated before or not", e -> {
+        s.test("Section 4, promise 23", "2 he STATES HOUR z left over by 8, or no more,", "each hour, stated before or not", e -> {
             for (int hour = 0; hour < 8; hour++) {
                 int want = hour;
                 int seed = seed(x -> x / 6 % 8 == 2 && x / 48 % 8 == want, is("."));
@@ -301,7 +301,7 @@ final class ChancesEdges {
                 e.due("hour " + hour + " can not be stated", x.year(seed, 2, 0), 1 << walker);
             }
         });
-        s.test("Section 4", "3 he pays a GATE, FLAG, SHEET (z left over by 3: 0, 1, 2),", "each walker, each kind", e -> {
+        s.test("Section 4, promise 23", "3 he pays a GATE, FLAG, SHEET (z left over by 3: 0, 1, 2),", "each walker, each kind", e -> {
             for (int walker = 0; walker < 6; walker++) {
                 for (int kind = 0; kind < 3; kind++) {
                     ToupeeWind x = alone(walker, 0, 0, 9);
@@ -317,7 +317,7 @@ final class ChancesEdges {
 
     private static void yearHolds(Sentences s) {
         String words = "5 he HOLDS WALKER z left over by 6, if z by 6 (cut) left over by 2 is 0, else nobody,";
-        s.test("Section 4", words, "each other one, himself, and whom he can not reach", e -> {
+        s.test("Section 4, promise 23", words, "each other one, himself, and whom he can not reach", e -> {
             int found = 0;
             for (int n = 0; n < 36; n++) {
                 int walker = n / 6;
@@ -338,7 +338,7 @@ final class ChancesEdges {
             }
             e.holds("most of the 36 pairs have a seed", found >= 30);
         });
-        s.test("Section 4", words, "nobody: whom he held is blown on", e -> {
+        s.test("Section 4, promise 23", words, "nobody: whom he held is blown on", e -> {
             for (int walker = 0; walker < 6; walker++) {
                 int other = (walker + 1) % 6;
                 ToupeeWind x = alone(other, 5, 0, 0);
@@ -354,7 +354,7 @@ final class ChancesEdges {
 
     private static void yearBlows(Sentences s) {
         String words = "6 a gale, if z left over by 4 is 0, else an hour, 7 an hour;";
-        s.test("Section 4", words, "a gale, and an hour by 1, by 2, by 3", e -> {
+        s.test("Section 4, promise 23", words, "a gale, and an hour by 1, by 2, by 3", e -> {
             ToupeeWind x = new ToupeeWind();
             for (int rest = 0; rest < 4; rest++) {
                 int want = rest;
@@ -364,7 +364,7 @@ final class ChancesEdges {
                 e.due("left over " + rest + ": two acts", x.year(seed, 2, 0), 2 | 4);
             }
         });
-        s.test("Section 4", words, "an hour by 7, whatever is left over", e -> {
+        s.test("Section 4, promise 23", words, "an hour by 7, whatever is left over", e -> {
             ToupeeWind x = new ToupeeWind();
             for (int rest = 0; rest < 4; rest++) {
                 int want = rest;
@@ -372,7 +372,7 @@ final class ChancesEdges {
                 e.due("left over " + rest, x.year(seed, 1, 2), 1);
             }
         });
-        s.test("Section 4", words, "a day goes by: all owe more", e -> {
+        s.test("Section 4, promise 23", words, "a day goes by: all owe more", e -> {
             ToupeeWind x = new ToupeeWind();
             Expect.text(x, ".......").done();
             for (int walker = 0; walker < 6; walker++) {
@@ -384,7 +384,7 @@ final class ChancesEdges {
 
     private static void yearTells(Sentences s) {
         String words = "TOUPEES that are OFF (bits); what all OWE, added; how many had it OFF in it.";
-        s.test("Section 4", words, "off ahead of it, too; in it alone", e -> {
+        s.test("Section 4, promise 23", words, "off ahead of it, too; in it alone", e -> {
             ToupeeWind x = new ToupeeWind();
             x.wind(0, 0, 5);
             Expect.text(x, ".").done();
@@ -393,7 +393,7 @@ final class ChancesEdges {
             e.due("off", x.year(seed(is(".")), 1, 0), 62);
             e.due("how many", x.year(seed(is(".")), 1, 2), 0);
         });
-        s.test("Section 4", words, "one is counted again", e -> {
+        s.test("Section 4, promise 23", words, "one is counted again", e -> {
             ToupeeWind x = alone(0, 1, 0, 0);
             x.wind(0, 1, 1);
             Expect.text(x, ".A>").done();
@@ -402,7 +402,7 @@ final class ChancesEdges {
             e.due("off", x.year(seed, 2, 0), 1);
             e.due("how many", x.year(seed, 2, 2), 1);
         });
-        s.test("Section 4", words, "all six off; nothing and 54 owed", e -> {
+        s.test("Section 4, promise 23", words, "all six off; nothing and 54 owed", e -> {
             ToupeeWind x = new ToupeeWind();
             int seed = seed(is("."));
             e.due("nothing", x.year(seed, 1, 1), 0);
@@ -413,7 +413,7 @@ final class ChancesEdges {
             e.due("off", x.year(seed, 1, 0), 63);
             e.due("how many", x.year(seed, 1, 2), 6);
         });
-        s.test("Section 4", "Nothing is DONE in fact.", "nothing, whichever is told", e -> {
+        s.test("Section 4, promise 23", "Nothing is DONE in fact.", "nothing, whichever is told", e -> {
             for (int what = 0; what < 3; what++) {
                 int told = what;
                 Twins.untouched(e, Twins::lively, "year(9999, 99, " + what + ")", x -> x.year(9999, 99, told));

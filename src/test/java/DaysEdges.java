@@ -22,7 +22,7 @@ final class DaysEdges {
 
     private static void judged(Sentences s) {
         String words = "JUDGED: of DAYS the first ACT (from 0 on) that can not be, and why.";
-        s.test("Section 2", words, "the first act, the last of sixty, and acts of two and three signs", e -> {
+        s.test("Section 2, promise 9", words, "the first act, the last of sixty, and acts of two and three signs", e -> {
             ToupeeWind x = new ToupeeWind();
             x.wind(0, 0, 9);
             Expect.text(x, "!" + ".".repeat(59));
@@ -35,7 +35,7 @@ final class DaysEdges {
             e.due("judge(0), acts are not signs", x.judge(0), 4);
             e.due("judge(1), acts are not signs", x.judge(1), 8);
         });
-        s.test("Section 2", words, "the first of two, as it is when its turn comes", e -> {
+        s.test("Section 2, promise 9", words, "the first of two, as it is when its turn comes", e -> {
             ToupeeWind x = Expect.text(new ToupeeWind(), "A>A<A<A|");
             e.due("judge(0)", x.judge(0), 2);
             e.due("judge(1)", x.judge(1), 2);
@@ -43,7 +43,7 @@ final class DaysEdges {
     }
 
     private static void done(Sentences s) {
-        s.test("Section 2", "DONE: all is so then.", "all that BEHIND told", e -> {
+        s.test("Section 2, promise 10", "DONE: all is so then.", "all that BEHIND told", e -> {
             ToupeeWind x = Twins.lively();
             ToupeeWind y = Twins.lively();
             y.done();
@@ -58,7 +58,7 @@ final class DaysEdges {
                 e.due("of all, " + what, y.told(1 + what), x.then(what));
             }
         });
-        s.test("Section 2", "DONE: all is so then.", "nothing said: nothing changes", e -> {
+        s.test("Section 2, promise 10", "DONE: all is so then.", "nothing said: nothing changes", e -> {
             ToupeeWind x = Expect.text(Twins.lively(), "");
             e.due("done()", x.done(), 0);
             e.holds("all is as it was", Twins.all(x).equals(Twins.all(Expect.text(Twins.lively(), ""))));
@@ -68,7 +68,7 @@ final class DaysEdges {
     private static void behind(Sentences s) {
         String words = "BEHIND, likewise, not being DONE: of a WALKER the CELL, HOURS (bits), what he OWES, whom he HOLDS (NONE),"
             + " where his TOUPEE lies (NONE: ON), GATES, FLAGS, SHEETS;";
-        s.test("Section 2", words, "nothing said: as it is", e -> {
+        s.test("Section 2, promise 11", words, "nothing said: as it is", e -> {
             ToupeeWind x = new ToupeeWind();
             x.walker(4, 11, 255, 9);
             x.purse(4, 9, 0, 7);
@@ -77,7 +77,7 @@ final class DaysEdges {
                 e.due("behind(4, " + what + ")", x.behind(4, what), due[what]);
             }
         });
-        s.test("Section 2", words, "it is not done", e -> {
+        s.test("Section 2, promise 11", words, "it is not done", e -> {
             Twins.Maker maker = () -> Expect.text(Twins.lively(), "A5.!..E|C<F6");
             ToupeeWind x = maker.make();
             for (int what = 0; what < 8; what++) {
@@ -86,7 +86,7 @@ final class DaysEdges {
             }
             e.holds("all is as it was", Twins.all(x).equals(Twins.all(maker.make())));
         });
-        s.test("Section 2", words, "each, changed by a text", e -> {
+        s.test("Section 2, promise 11", words, "each, changed by a text", e -> {
             ToupeeWind x = new ToupeeWind();
             x.walker(0, 1, 0, 3);
             Expect.text(x, "AgAfA7A&B.A>");
@@ -99,7 +99,7 @@ final class DaysEdges {
 
     private static void ofAll(Sentences s) {
         String words = "of all: the CELL of THE WIND, its WAY (0 up, 1 down), its FORCE, the hour, the day, HUSHED ones (bits),";
-        s.test("Section 2", words, "nothing said: as it is", e -> {
+        s.test("Section 2, promise 12", words, "nothing said: as it is", e -> {
             ToupeeWind x = new ToupeeWind();
             x.wind(11, 1, 9);
             x.walker(5, 5, 1, 3);
@@ -108,7 +108,7 @@ final class DaysEdges {
                 e.due("then(" + what + ")", x.then(what), due[what]);
             }
         });
-        s.test("Section 2", words, "it turned, and a day went by", e -> {
+        s.test("Section 2, promise 12", words, "it turned, and a day went by", e -> {
             ToupeeWind x = new ToupeeWind();
             x.wind(10, 0, 1);
             x.walker(5, 5, 2, 0);
@@ -122,7 +122,7 @@ final class DaysEdges {
 
     private static void losses(Sentences s) {
         String count = "how many had it OFF in the text,";
-        s.test("Section 2", count, "none, one, all six in an hour", e -> {
+        s.test("Section 2, promise 12", count, "none, one, all six in an hour", e -> {
             ToupeeWind x = new ToupeeWind();
             e.due("nothing said", x.then(6), 0);
             e.due("an hour", Expect.text(x, ".").then(6), 1);
@@ -130,7 +130,7 @@ final class DaysEdges {
             x.wind(0, 0, 6);
             e.due("a strong one", x.then(6), 6);
         });
-        s.test("Section 2", count, "one who puts it on and has it off again counts again", e -> {
+        s.test("Section 2, promise 12", count, "one who puts it on and has it off again counts again", e -> {
             ToupeeWind x = new ToupeeWind();
             for (int walker = 1; walker < 6; walker++) {
                 x.walker(walker, 0, 0, 0);
@@ -138,7 +138,7 @@ final class DaysEdges {
             x.walker(0, 1, 0, 0);
             e.due("three times", Expect.text(x, ".A>A^.A>A^.").then(6), 3);
         });
-        s.test("Section 2", count, "what was off ahead of the text does not count", e -> {
+        s.test("Section 2, promise 12", count, "what was off ahead of the text does not count", e -> {
             ToupeeWind x = new ToupeeWind();
             Expect.text(x, ".").done();
             e.due("told(7)", x.told(7), 2);
@@ -147,7 +147,7 @@ final class DaysEdges {
             e.due("who", x.then(8), 2);
         });
         String first = "the first ACT by which one had, who, the first (NONE).";
-        s.test("Section 2", first, "nobody", e -> {
+        s.test("Section 2, promise 12", first, "nobody", e -> {
             ToupeeWind x = new ToupeeWind();
             e.due("nothing said: the act", x.then(7), NONE);
             e.due("nothing said: who", x.then(8), NONE);
@@ -156,7 +156,7 @@ final class DaysEdges {
             e.due("an hour: the act", x.then(7), NONE);
             e.due("an hour: who", x.then(8), NONE);
         });
-        s.test("Section 2", first, "act 0, and acts of two and three signs ahead of it", e -> {
+        s.test("Section 2, promise 12", first, "act 0, and acts of two and three signs ahead of it", e -> {
             ToupeeWind x = Expect.text(new ToupeeWind(), ".");
             e.due("the act", x.then(7), 0);
             e.due("who", x.then(8), 1);
@@ -164,7 +164,7 @@ final class DaysEdges {
             e.due("the act", x.then(7), 4);
             e.due("who", x.then(8), 0);
         });
-        s.test("Section 2", first, "by the last of sixty signs", e -> {
+        s.test("Section 2, promise 12", first, "by the last of sixty signs", e -> {
             ToupeeWind x = new ToupeeWind();
             x.wind(1, 1, 9);
             Expect.text(x, ".".repeat(8)).done();
@@ -178,7 +178,7 @@ final class DaysEdges {
             e.due("the act", x.then(7), 40);
             e.due("who", x.then(8), 4);
         });
-        s.test("Section 2", first, "the first of two losses", e -> {
+        s.test("Section 2, promise 12", first, "the first of two losses", e -> {
             ToupeeWind x = new ToupeeWind();
             x.walker(0, 3, 0, 0);
             x.walker(3, 2, 0, 0);

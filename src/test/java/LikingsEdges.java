@@ -22,14 +22,14 @@ final class LikingsEdges {
 
     private static void sights(Sentences s) {
         String unknown = "THE WIND LIKES GATES, FLAGS, SHEETS by g, f, s (0 to 3 each), that are not known.";
-        s.test("Section 4", unknown, "nothing seen: all from 0 to 333", e -> {
+        s.test("Section 4, promises 17, 19", unknown, "nothing seen: all from 0 to 333", e -> {
             ToupeeWind x = new ToupeeWind();
             e.due("likings(-1)", x.likings(-1), 64);
             e.due("likings(0)", x.likings(0), 0);
             e.due("likings(63)", x.likings(63), 333);
             e.due("likings(64)", x.likings(64), NONE);
         });
-        s.test("Section 4", unknown, "what it likes in fact tells nothing of it, nor is told by it", e -> {
+        s.test("Section 4, promises 17, 19", unknown, "what it likes in fact tells nothing of it, nor is told by it", e -> {
             ToupeeWind x = new ToupeeWind();
             x.likes(0, 0, 0);
             e.due("likings(-1)", x.likings(-1), 64);
@@ -38,7 +38,7 @@ final class LikingsEdges {
             e.due("likes(1, 1, 1)", x.likes(1, 1, 1), 0);
         });
         String words = "SIGHTS, 8 at most: i GATES, j FLAGS, k SHEETS (0 to 3 each) were enough for what was OWED, d (1 to 9), or were not.";
-        s.test("Section 4", words, "just enough is enough, one less is not", e -> {
+        s.test("Section 4, promises 17, 19", words, "just enough is enough, one less is not", e -> {
             e.due("9 by 1, 1, 1", having(9, 1, 1, 1, true).likings(-1), 1);
             e.due("not 9 by 1, 1, 1", having(9, 1, 1, 1, false).likings(-1), 63);
             for (int d = 1; d <= 3; d++) {
@@ -48,7 +48,7 @@ final class LikingsEdges {
             e.due("4 by a gate", having(4, 1, 0, 0, true).likings(-1), 0);
             e.due("not 4 by a gate", having(4, 1, 0, 0, false).likings(-1), 64);
         });
-        s.test("Section 4", words, "no goods, all goods", e -> {
+        s.test("Section 4, promises 17, 19", words, "no goods, all goods", e -> {
             e.due("1 by none", having(1, 0, 0, 0, true).likings(-1), 0);
             e.due("not 1 by none", having(1, 0, 0, 0, false).likings(-1), 64);
             e.due("9 by 3, 3, 3", having(9, 3, 3, 3, true).likings(-1), 54);
@@ -56,7 +56,7 @@ final class LikingsEdges {
             e.due("1 by 3, 3, 3", having(1, 3, 3, 3, true).likings(-1), 63);
             e.due("not 1 by 3, 3, 3", having(1, 3, 3, 3, false).likings(-1), 1);
         });
-        s.test("Section 4", words, "each kind by its own liking", e -> {
+        s.test("Section 4, promises 17, 19", words, "each kind by its own liking", e -> {
             e.due("gates", having(3, 1, 0, 0, true).likings(0), 300);
             e.due("flags", having(3, 0, 1, 0, true).likings(0), 30);
             e.due("sheets", having(3, 0, 0, 1, true).likings(0), 3);
@@ -64,7 +64,7 @@ final class LikingsEdges {
             e.due("three flags", having(9, 0, 3, 0, true).likings(0), 30);
             e.due("three sheets", having(9, 0, 0, 3, true).likings(0), 3);
         });
-        s.test("Section 4", words, "eight of them, all looked at", e -> {
+        s.test("Section 4, promises 17, 19", words, "eight of them, all looked at", e -> {
             ToupeeWind x = new ToupeeWind();
             for (int n = 1; n <= 7; n++) {
                 x.seen(1, 0, 0, 0, false);
@@ -78,13 +78,13 @@ final class LikingsEdges {
 
     private static void likings(Sentences s) {
         String words = "LIKINGS: 100 times g, 10 times f, and s, by which all SIGHTS are so: how many; the i-th (rising).";
-        s.test("Section 4", words, "each of all 64, rising", e -> {
+        s.test("Section 4, promise 19", words, "each of all 64, rising", e -> {
             ToupeeWind x = new ToupeeWind();
             for (int i = 0; i < 64; i++) {
                 e.due("likings(" + i + ")", x.likings(i), 100 * (i / 16) + 10 * (i / 4 % 4) + i % 4);
             }
         });
-        s.test("Section 4", words, "all sights, not only one of them", e -> {
+        s.test("Section 4, promise 19", words, "all sights, not only one of them", e -> {
             ToupeeWind x = having(3, 1, 0, 0, true);
             x.seen(2, 0, 1, 1, false);
             e.due("likings(-1)", x.likings(-1), 3);
@@ -93,7 +93,7 @@ final class LikingsEdges {
             e.due("likings(2)", x.likings(2), 310);
             e.due("likings(3)", x.likings(3), NONE);
         });
-        s.test("Section 4", words, "two sights that can not both be so", e -> {
+        s.test("Section 4, promise 19", words, "two sights that can not both be so", e -> {
             ToupeeWind x = having(9, 3, 0, 0, true);
             x.seen(9, 3, 0, 0, false);
             e.due("likings(-1)", x.likings(-1), 0);
@@ -104,30 +104,41 @@ final class LikingsEdges {
     private static void ask(Sentences s) {
         String words = "ASK: 1000 times d, 100 times i, 10 times j, and k, to try next, so that, whether or not, fewest of these"
             + " are left at the most: the least; how many.";
-        s.test("Section 4", words, "nothing seen: halves", e -> {
+        s.test("Section 4, promise 20", words, "nothing seen: halves", e -> {
             ToupeeWind x = new ToupeeWind();
             e.due("ask(0)", x.ask(0), 2001);
             e.due("ask(1)", x.ask(1), 32);
         });
-        s.test("Section 4", words, "one is left: the least that can be tried", e -> {
+        s.test("Section 4, promise 20", words, "one is left: the least that can be tried", e -> {
             ToupeeWind x = having(9, 1, 1, 1, true);
             e.due("ask(0)", x.ask(0), 1000);
             e.due("ask(1)", x.ask(1), 1);
         });
-        s.test("Section 4", words, "of four only the two greatest can be told apart late", e -> {
+        s.test("Section 4, promise 20", words, "of four only the two greatest can be told apart late", e -> {
             // 233, 323, 332, 333: below d = 6 no trial leaves fewer than three.
             ToupeeWind x = having(8, 1, 1, 1, true);
             e.due("likings(-1)", x.likings(-1), 4);
             e.due("ask(0)", x.ask(0), 6011);
             e.due("ask(1)", x.ask(1), 2);
         });
-        s.test("Section 4", words, "of three, two are left at the most", e -> {
+        s.test("Section 4, promise 20", words, "of three, two are left at the most", e -> {
             ToupeeWind x = having(3, 1, 0, 0, true);
             x.seen(2, 0, 1, 1, false);
             e.due("ask(0)", x.ask(0), 1001);
             e.due("ask(1)", x.ask(1), 2);
         });
-        s.test("Section 4", words, "eight sights: there is still something to try", e -> {
+        s.test("Section 4, promise 20", words, "d to 9, i, j, k to 3 are to be tried", e -> {
+            ToupeeWind x = having(3, 1, 1, 1, true);
+            e.due("d is 9, k is 3: ask(0)", x.ask(0), 9113);
+            e.due("27 of 54: ask(1)", x.ask(1), 27);
+            x = having(4, 1, 1, 2, true);
+            e.due("j is 3: ask(0)", x.ask(0), 7130);
+            e.due("26 of 51: ask(1)", x.ask(1), 26);
+            x = having(5, 1, 2, 2, true);
+            e.due("i is 3: ask(0)", x.ask(0), 7301);
+            e.due("26 of 51: ask(1)", x.ask(1), 26);
+        });
+        s.test("Section 4, promise 20", words, "eight sights: there is still something to try", e -> {
             ToupeeWind x = new ToupeeWind();
             for (int n = 1; n <= 8; n++) {
                 x.seen(1, 0, 0, 0, false);

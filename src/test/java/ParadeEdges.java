@@ -21,7 +21,7 @@ final class ParadeEdges {
     }
 
     private static void atFirst(Sentences s) {
-        s.test("Section 1", "THE PARADE has CELLS 0 to 11, in a row.", "the first and the last one, and beyond", e -> {
+        s.test("Section 1, promises 2, 9, 11", "THE PARADE has CELLS 0 to 11, in a row.", "the first and the last one, and beyond", e -> {
             ToupeeWind x = new ToupeeWind();
             for (int cell = 0; cell < 11; cell++) {
                 x.walker(0, cell, 0, 0);
@@ -33,7 +33,7 @@ final class ParadeEdges {
             x.walker(0, 0, 0, 0);
             e.due("below 0", Expect.text(x, "A<").judge(1), 2);
         });
-        s.test("Section 1", "THE WIND is on a CELL (0 at first), its WAY is up (to the next greater CELL; at first),"
+        s.test("Section 1, promise 1", "THE WIND is on a CELL (0 at first), its WAY is up (to the next greater CELL; at first),"
             + " or down, its FORCE is 1 to 9 (1 at first).", "at first", e -> {
             ToupeeWind x = new ToupeeWind();
             e.due("told(1)", x.told(1), 0);
@@ -43,12 +43,12 @@ final class ParadeEdges {
             x.wind(6, 1, 1);
             e.due("down: behind an hour", x.then(0), 5);
         });
-        s.test("Section 1", "It is hour 0 to 7 (0 at first) of day 0 to 99 (0 at first).", "at first", e -> {
+        s.test("Section 1, promise 1", "It is hour 0 to 7 (0 at first) of day 0 to 99 (0 at first).", "at first", e -> {
             ToupeeWind x = new ToupeeWind();
             e.due("told(4)", x.told(4), 0);
             e.due("told(5)", x.told(5), 0);
         });
-        s.test("Section 1", "WALKERS 0 to 5 (A to F) are each on a CELL (their number, at first), have STATED some HOURS"
+        s.test("Section 1, promise 1", "WALKERS 0 to 5 (A to F) are each on a CELL (their number, at first), have STATED some HOURS"
             + " 0 to 7 (none, at first), OWE 0 to 9 (0 at first), have GATES, FLAGS, SHEETS (0 to 9 of each;"
             + " 2 at first), a TOUPEE that is ON (at first), or OFF, and lies on a CELL; and one may HOLD another one"
             + " (none, at first).", "each of them, at first", e -> {
@@ -61,7 +61,7 @@ final class ParadeEdges {
                 }
             }
         });
-        s.test("Section 1", "WALKERS 0 to 5 (A to F)", "each letter is its own walker's", e -> {
+        s.test("Section 1, promise 11", "WALKERS 0 to 5 (A to F)", "each letter is its own walker's", e -> {
             for (int walker = 0; walker < 6; walker++) {
                 ToupeeWind x = Expect.text(new ToupeeWind(), (char) ('A' + walker) + "3");
                 for (int other = 0; other < 6; other++) {
@@ -69,7 +69,7 @@ final class ParadeEdges {
                 }
             }
         });
-        s.test("Section 1", "THE WIND LIKES a GATE by 1, a FLAG by 1, a SHEET by 1 (each 0 to 3, as told).", "at first", e -> {
+        s.test("Section 1, promise 1", "THE WIND LIKES a GATE by 1, a FLAG by 1, a SHEET by 1 (each 0 to 3, as told).", "at first", e -> {
             ToupeeWind x = new ToupeeWind();
             x.walker(0, 0, 0, 3);
             e.due("a gate", Expect.text(x, "Ag").behind(0, 2), 2);
@@ -90,7 +90,7 @@ final class ParadeEdges {
 
     private static void peace(Sentences s) {
         String words = "One is at peace, if he has STATED the hour that it is, and OWES fewer than 4.";
-        s.test("Section 1", words, "each hour, and each but that one", e -> {
+        s.test("Section 1, promises 12, 26", words, "each hour, and each but that one", e -> {
             for (int hour = 0; hour < 8; hour++) {
                 ToupeeWind x = new ToupeeWind();
                 Expect.text(x, ".".repeat(hour)).done();
@@ -100,7 +100,7 @@ final class ParadeEdges {
                 e.due("all but hour " + hour + ": told(6)", x.told(6), 0);
             }
         });
-        s.test("Section 1", words, "3 and 4 owed", e -> {
+        s.test("Section 1, promises 12, 26", words, "3 and 4 owed", e -> {
             ToupeeWind x = new ToupeeWind();
             for (int owes = 0; owes <= 9; owes++) {
                 x.walker(0, 0, 1, owes);
@@ -108,7 +108,7 @@ final class ParadeEdges {
             }
         });
         String hushed = "One is HUSHED, if he is at peace, or is HELD by one who is.";
-        s.test("Section 1", hushed, "whom one at peace holds, not whom another one holds", e -> {
+        s.test("Section 1, promises 12, 26", hushed, "whom one at peace holds, not whom another one holds", e -> {
             ToupeeWind x = new ToupeeWind();
             x.walker(0, 3, 1, 3);
             Expect.text(x, "A&D").done();
@@ -119,7 +119,7 @@ final class ParadeEdges {
             x.walker(0, 3, 2, 0);
             e.due("A has stated another hour", Expect.text(x, "A&D").then(5), 0);
         });
-        s.test("Section 1", hushed, "one who holds one at peace is not", e -> {
+        s.test("Section 1, promises 12, 26", hushed, "one who holds one at peace is not", e -> {
             ToupeeWind x = new ToupeeWind();
             x.walker(0, 3, 0, 0);
             x.walker(3, 3, 1, 0);
@@ -129,7 +129,7 @@ final class ParadeEdges {
 
     private static void signs(Sentences s) {
         String words = "DAYS are a text on a PAD (60 SIGNS at most, codes 33 to 126) of ACTS:";
-        s.test("Section 1", words, "60 signs are taken and read, the 61st is not", e -> {
+        s.test("Section 1, promise 8", words, "60 signs are taken and read, the 61st is not", e -> {
             ToupeeWind x = Expect.text(new ToupeeWind(), ".".repeat(59));
             e.due("the 60th", x.say('!'), 60);
             e.due("the 61st", x.say('!'), FULL);
@@ -138,13 +138,13 @@ final class ParadeEdges {
             e.due("the 60th sign is read", x.then(2), 2);
             e.due("done()", x.done(), 60);
         });
-        s.test("Section 1", words, "no signs are no acts", e -> {
+        s.test("Section 1, promise 8", words, "no signs are no acts", e -> {
             ToupeeWind x = new ToupeeWind();
             e.due("fault()", x.fault(), NONE);
             e.due("judge(0)", x.judge(0), NONE);
             e.due("done()", x.done(), 0);
         });
-        s.test("Section 1", "a WALKER's letter and:", "A and F, and their neighbours", e -> {
+        s.test("Section 1, promise 8", "a WALKER's letter and:", "A and F, and their neighbours", e -> {
             ToupeeWind x = new ToupeeWind();
             e.due("A", Expect.text(x, "A5").fault(), NONE);
             e.due("F", Expect.text(x, "F5").fault(), NONE);
@@ -152,7 +152,7 @@ final class ParadeEdges {
                 e.due(no, Expect.text(x, no).fault(), 0);
             }
         });
-        s.test("Section 1", "a digit 0 to 7", "0 and 7, and their neighbours", e -> {
+        s.test("Section 1, promise 8", "a digit 0 to 7", "0 and 7, and their neighbours", e -> {
             ToupeeWind x = new ToupeeWind();
             for (int hour = 0; hour < 8; hour++) {
                 e.due("A" + hour, Expect.text(x, "A" + hour).behind(0, 1), 1 << hour);
@@ -161,7 +161,7 @@ final class ParadeEdges {
                 e.due(no, Expect.text(x, no).fault(), 1);
             }
         });
-        s.test("Section 1", "g, f, or s", "each, and no sign beside them", e -> {
+        s.test("Section 1, promise 8", "g, f, or s", "each, and no sign beside them", e -> {
             ToupeeWind x = new ToupeeWind();
             for (char sign = 33; sign <= 126; sign++) {
                 boolean deed = "><01234567gfs^|".indexOf(sign) >= 0;
@@ -171,7 +171,7 @@ final class ParadeEdges {
                 }
             }
         });
-        s.test("Section 1", "& and a WALKER's letter", "A and F, and their neighbours", e -> {
+        s.test("Section 1, promise 8", "& and a WALKER's letter", "A and F, and their neighbours", e -> {
             ToupeeWind x = new ToupeeWind();
             e.due("C&A", Expect.text(x, "C&A").fault(), NONE);
             e.due("C&F", Expect.text(x, "C&F").fault(), NONE);
@@ -179,7 +179,7 @@ final class ParadeEdges {
                 e.due(no, Expect.text(x, no).fault(), 2);
             }
         });
-        s.test("Section 1", "! (a gale: the FORCE is 1 more); or . (an hour).", "they stand alone", e -> {
+        s.test("Section 1, promise 8", "! (a gale: the FORCE is 1 more); or . (an hour).", "they stand alone", e -> {
             ToupeeWind x = new ToupeeWind();
             for (char sign = 33; sign <= 126; sign++) {
                 boolean act = sign == '!' || sign == '.';
@@ -194,19 +194,19 @@ final class ParadeEdges {
 
     private static void faults(Sentences s) {
         String words = "THE FAULT: the place (from 0 on) of the first sign that can not stand there;";
-        s.test("Section 1", words, "the first place and the last one", e -> {
+        s.test("Section 1, promise 8", words, "the first place and the last one", e -> {
             ToupeeWind x = new ToupeeWind();
             e.due("at 0", Expect.text(x, ">A>").fault(), 0);
             e.due("at 59", Expect.text(x, ".".repeat(59) + "~").fault(), 59);
             e.due("at 59, behind a letter", Expect.text(x, ".".repeat(58) + "AA").fault(), 59);
             e.due("at 59, behind &", Expect.text(x, ".".repeat(57) + "A&&").fault(), 59);
         });
-        s.test("Section 1", words, "the first of two", e ->
+        s.test("Section 1, promise 8", words, "the first of two", e ->
             e.due("at 3", Expect.text(new ToupeeWind(), "A>BG~A&").fault(), 3));
-        s.test("Section 1", words, "it is no matter whether the act can be", e ->
+        s.test("Section 1, promise 8", words, "it is no matter whether the act can be", e ->
             e.due("A<", Expect.text(new ToupeeWind(), "A<A|A&A").fault(), NONE));
         String more = "the number of signs, if more must come.";
-        s.test("Section 1", more, "one sign, two, sixty", e -> {
+        s.test("Section 1, promise 8", more, "one sign, two, sixty", e -> {
             ToupeeWind x = new ToupeeWind();
             e.due("A", Expect.text(x, "A").fault(), 1);
             e.due("A&", Expect.text(x, "A&").fault(), 2);
@@ -241,20 +241,27 @@ final class ParadeEdges {
                 e.due("the purse stays", x.told(60 + walker), 222);
             }
         });
-        s.test("Promise 2", "he HOLDS nobody, nobody HOLDS him;", "the holder is placed, the held one is placed", e -> {
-            ToupeeWind x = new ToupeeWind();
-            x.walker(1, 4, 0, 0);
-            Expect.text(x, "B&E").done();
-            e.due("B holds E", x.told(41), 4);
-            x.walker(1, 4, 0, 0);
-            e.due("B is placed", x.told(41), NONE);
-            e.due("E can go", Expect.text(x, "E>").judge(0), NONE);
-            Expect.text(x, "B&E").done();
-            x.walker(4, 4, 0, 0);
-            e.due("E is placed", x.told(41), NONE);
-            Expect.text(x, "B&E").done();
-            x.walker(2, 4, 0, 0);
-            e.due("another one is placed", x.told(41), 4);
+        s.test("Promise 2", "he HOLDS nobody, nobody HOLDS him;", "the holder is placed, the held one is, another one is", e -> {
+            for (int pair = 0; pair < 36; pair++) {
+                int holder = pair / 6;
+                int held = pair % 6;
+                if (holder == held) {
+                    continue;
+                }
+                String hold = (char) ('A' + holder) + "&" + (char) ('A' + held);
+                String go = (char) ('A' + held) + ">";
+                ToupeeWind x = new ToupeeWind();
+                for (int placed = 0; placed < 6; placed++) {
+                    x.walker(holder, 4, 0, 0);
+                    x.walker(held, 4, 0, 0);
+                    Expect.text(x, hold).done();
+                    x.walker(placed, 4, 0, 0);
+                    boolean ends = placed == holder || placed == held;
+                    e.due(hold + ", " + placed + " is placed", x.told(40 + holder), ends ? NONE : held);
+                    e.due(hold + ", " + placed + " is placed: " + go, Expect.text(x, go).judge(1), ends ? NONE : 1);
+                    x.walker(holder, 4, 0, 0);
+                }
+            }
         });
         s.test("Promise 2", "his TOUPEE is ON:", "it was off; another one's stays off", e -> {
             ToupeeWind x = new ToupeeWind();

@@ -8,9 +8,10 @@ import java.util.regex.Matcher;
 import java.util.regex.Pattern;
 
 /**
- * Tests of single sentences of the document. Each names where its sentence stands ("Promise 6", "Terms",
- * "Section 1"), the sentence's own words, and the edge that it looks at. Words that the document does not
- * have there are a failure, and so are words of a promise or of "Terms" that no test names.
+ * Tests of single sentences of the document. Each names where its sentence stands ("Promise 6", or, for a
+ * sentence that promises rest on, "Section 1, promises 11, 12"), the sentence's own words, and the edge that
+ * it looks at. Words that the document does not have there are a failure, and so are words of a promise or of
+ * "Terms" that no test names.
  */
 final class Sentences {
     interface Body {
@@ -19,13 +20,17 @@ final class Sentences {
 
     private static final String LAST_OF_TERMS = "Ahead of the calls";
     private static final String INTRODUCTION = "What it is";
+    private static final Pattern PLACE = Pattern.compile("(Promise \\d+)|([A-Z][\\w ]+), promises? \\d[\\d ,to]*");
+    private static final int MOST_SECONDS = 100;
 
     private final Expect e = new Expect();
     private final Map<String, String> texts = new LinkedHashMap<>();
     private final Map<String, boolean[]> named = new LinkedHashMap<>();
     private int tests = 0;
+    private volatile String running = "";
 
     Sentences(Path document) throws IOException {
+        watch();
         String all = Files.readString(document);
         keep(INTRODUCTION, between(all, "## What it is", "## The public face"));
         String terms = between(all, "## Terms", LAST_OF_TERMS);
@@ -40,6 +45,21 @@ final class Sentences {
         }
     }
 
+    /** A call that does not end is a failure, too. */
+    private void watch() {
+        Thread watcher = new Thread(() -> {
+            try {
+                Thread.sleep(1000L * MOST_SECONDS);
+            } catch (InterruptedException ended) {
+                return;
+            }
+            System.out.println("a call does not end: " + running);
+            Runtime.getRuntime().halt(1);
+        });
+        watcher.setDaemon(true);
+        watcher.start();
+    }
+
     private static String between(String all, String from, String to) {
         int begin = all.indexOf(from) + from.length();
         return all.substring(begin, all.indexOf(to, begin));
@@ -52,9 +72,13 @@ final class Sentences {
     }
 
     /** One test, of one sentence. */
-    void test(String section, String words, String edge, Body body) {
+    void test(String place, String words, String edge, Body body) {
         tests++;
-        e.about(section + ", \"" + words + "\", " + edge + ": ");
+        running = place + ", \"" + words + "\", " + edge + ": ";
+        e.about(running);
+        Matcher m = PLACE.matcher(place);
+        e.holds("a promise is named", m.matches());
+        String section = !m.matches() ? place : m.group(1) != null ? m.group(1) : m.group(2);
         String text = texts.getOrDefault(section, "");
         int at = text.indexOf(words);
         e.holds("the document says so there", at >= 0);

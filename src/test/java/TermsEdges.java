@@ -21,7 +21,7 @@ final class TermsEdges {
 
     private static void lastCalls(Sentences s) {
         String words = "An object is used for at most 512 calls after it has been made";
-        s.test("What it is", words, "the 512th call still answers as the first did", e -> {
+        s.test("What it is, promises 2, 6, 10, 23 to 25", words, "the 512th call still answers as the first did", e -> {
             ToupeeWind x = new ToupeeWind();
             ToupeeWind y = new ToupeeWind();
             for (int call = 1; call <= 512; call++) {
@@ -30,7 +30,7 @@ final class TermsEdges {
                     call == 1 ? 5000 : 1000 * ((call - 1) % 12) + (call - 1) % 10);
             }
         });
-        s.test("What it is", words, "all 512 write, keep and restore", e -> {
+        s.test("What it is, promises 2, 6, 10, 23 to 25", words, "all 512 write, keep and restore", e -> {
             ToupeeWind x = new ToupeeWind();
             for (int call = 1; call <= 512; call++) {
                 switch (call % 4) {
@@ -44,11 +44,11 @@ final class TermsEdges {
     }
 
     private static void kinds(Sentences s) {
-        s.test("Terms", "UNKNOWN -1 (there is no such WALKER, CELL, by number)", "the number", e ->
+        s.test("Terms, promises 2 to 26", "UNKNOWN -1 (there is no such WALKER, CELL, by number)", "the number", e ->
             e.due("UNKNOWN", ToupeeWind.UNKNOWN, UNKNOWN));
-        s.test("Terms", "OUTSIDE -2 (another number is not as told)", "the number", e ->
+        s.test("Terms, promises 2 to 26", "OUTSIDE -2 (another number is not as told)", "the number", e ->
             e.due("OUTSIDE", ToupeeWind.OUTSIDE, OUTSIDE));
-        s.test("Terms", "NO -5 (as told), STATE -3 (as told), FULL -4.", "the numbers", e -> {
+        s.test("Terms, promises 2 to 26", "NO -5 (as told), STATE -3 (as told), FULL -4.", "the numbers", e -> {
             e.due("NO", ToupeeWind.NO, NO);
             e.due("STATE", ToupeeWind.STATE, STATE);
             e.due("FULL", ToupeeWind.FULL, FULL);
@@ -57,7 +57,7 @@ final class TermsEdges {
 
     private static void order(Sentences s) {
         String words = "Calls that are refused answer, the first of these that fits:";
-        s.test("Terms", words, "UNKNOWN comes ahead of OUTSIDE", e -> {
+        s.test("Terms, promises 2 to 26", words, "UNKNOWN comes ahead of OUTSIDE", e -> {
             ToupeeWind x = new ToupeeWind();
             e.due("walker(6, 0, 256, 0)", x.walker(6, 0, 256, 0), UNKNOWN);
             e.due("walker(0, 12, 0, 10)", x.walker(0, 12, 0, 10), UNKNOWN);
@@ -73,7 +73,7 @@ final class TermsEdges {
             e.due("gale(12, 2, 2)", x.gale(12, 2, 2), LOST + UNKNOWN);
             e.due("gale(-1, 0, -1)", x.gale(-1, 0, -1), LOST + UNKNOWN);
         });
-        s.test("Terms", words, "UNKNOWN and OUTSIDE come ahead of NO", e -> {
+        s.test("Terms, promises 2 to 26", words, "UNKNOWN and OUTSIDE come ahead of NO", e -> {
             for (ToupeeWind x : new ToupeeWind[] {Twins.faulty(), Twins.impossible()}) {
                 e.due("behind(6, 0)", x.behind(6, 0), UNKNOWN);
                 e.due("behind(-1, 8)", x.behind(-1, 8), UNKNOWN);
@@ -85,12 +85,12 @@ final class TermsEdges {
                 e.due("judge(-1)", x.judge(-1), OUTSIDE);
             }
         });
-        s.test("Terms", words, "OUTSIDE comes ahead of STATE", e -> {
+        s.test("Terms, promises 2 to 26", words, "OUTSIDE comes ahead of STATE", e -> {
             ToupeeWind x = new ToupeeWind();
             e.due("restore(2)", x.restore(2), OUTSIDE);
             e.due("restore(-1)", x.restore(-1), OUTSIDE);
         });
-        s.test("Terms", words, "OUTSIDE comes ahead of FULL", e -> {
+        s.test("Terms, promises 2 to 26", words, "OUTSIDE comes ahead of FULL", e -> {
             ToupeeWind x = Twins.full();
             e.due("say(32)", x.say(32), OUTSIDE);
             e.due("say(127)", x.say(127), OUTSIDE);
@@ -101,7 +101,7 @@ final class TermsEdges {
 
     private static void nothingChanges(Sentences s) {
         String words = "They change nothing.";
-        s.test("Terms", words, "refused by two numbers at once", e -> {
+        s.test("Terms, promises 2 to 26", words, "refused by two numbers at once", e -> {
             Twins.unchanged(e, Twins::lively, "walker(6, 12, 256, 10)", x -> x.walker(6, 12, 256, 10), UNKNOWN);
             Twins.unchanged(e, Twins::lively, "walker(0, 0, 256, 1)", x -> x.walker(0, 0, 256, 1), OUTSIDE);
             Twins.unchanged(e, Twins::lively, "walker(0, 0, 1, 10)", x -> x.walker(0, 0, 1, 10), OUTSIDE);
@@ -109,7 +109,7 @@ final class TermsEdges {
             Twins.unchanged(e, Twins::lively, "likes(0, 0, 4)", x -> x.likes(0, 0, 4), OUTSIDE);
             Twins.unchanged(e, Twins::lively, "wind(0, 0, 10)", x -> x.wind(0, 0, 10), OUTSIDE);
         });
-        s.test("Terms", words, "refused by NO", e -> {
+        s.test("Terms, promises 2 to 26", words, "refused by NO", e -> {
             Twins.Maker[] makers = {Twins::faulty, Twins::impossible};
             for (Twins.Maker maker : makers) {
                 Twins.unchanged(e, maker, "done()", x -> x.done(), NO);
@@ -119,9 +119,9 @@ final class TermsEdges {
             Twins.unchanged(e, Twins::faulty, "judge(0)", x -> x.judge(0), NO);
             Twins.unchanged(e, Twins::faulty, "judge(1)", x -> x.judge(1), NO);
         });
-        s.test("Terms", words, "refused by STATE", e ->
+        s.test("Terms, promises 2 to 26", words, "refused by STATE", e ->
             Twins.unchanged(e, Twins::lively, "restore(1)", x -> x.restore(1), STATE));
-        s.test("Terms", words, "refused by FULL", e -> {
+        s.test("Terms, promises 2 to 26", words, "refused by FULL", e -> {
             Twins.unchanged(e, Twins::full, "say(46)", x -> x.say(46), FULL);
             Twins.unchanged(e, Twins::full, "seen(1, 0, 0, 0, true)", x -> x.seen(1, 0, 0, 0, true), FULL);
         });
@@ -129,14 +129,14 @@ final class TermsEdges {
 
     private static void fractions(Sentences s) {
         String words = "Fractions are told in lowest terms by part: 0 the upper, 1 the lower number;";
-        s.test("Terms", words, "45 of 216 are 5 of 24, 71 of 216 stay", e -> {
+        s.test("Terms, promise 22", words, "45 of 216 are 5 of 24, 71 of 216 stay", e -> {
             ToupeeWind x = new ToupeeWind();
             e.due("gale(0, 0, 0)", x.gale(0, 0, 0), 5);
             e.due("gale(0, 0, 1)", x.gale(0, 0, 1), 24);
             e.due("gale(1, 0, 0)", x.gale(1, 0, 0), 71);
             e.due("gale(1, 0, 1)", x.gale(1, 0, 1), 216);
         });
-        s.test("Terms", "refused with LOST and the refusal.", "both refusals, added", e -> {
+        s.test("Terms, promise 22", "refused with LOST and the refusal.", "both refusals, added", e -> {
             ToupeeWind x = new ToupeeWind();
             e.due("LOST", ToupeeWind.LOST, LOST);
             e.due("gale(12, 0, 0)", x.gale(12, 0, 0), -1000000000000000001L);
@@ -145,7 +145,7 @@ final class TermsEdges {
     }
 
     private static void sets(Sentences s) {
-        s.test("Terms", "Sets are bits.", "nobody, the first, the last, all", e -> {
+        s.test("Terms, promise 26", "Sets are bits.", "nobody, the first, the last, all", e -> {
             ToupeeWind x = new ToupeeWind();
             e.due("nobody is hushed: told(6)", x.told(6), 0);
             x.walker(0, 0, 1, 0);

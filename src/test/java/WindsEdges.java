@@ -19,7 +19,7 @@ final class WindsEdges {
 
     private static void now(Sentences s) {
         String words = "(As things are now; the FORCE stays.)";
-        s.test("Section 3", words, "what is on the pad is no matter", e -> {
+        s.test("Section 3, promises 13 to 16", words, "what is on the pad is no matter", e -> {
             ToupeeWind x = Expect.text(new ToupeeWind(), "!!.A5AgB&B~");
             x.walker(0, 0, 1, 3);
             e.due("when(1)", x.when(1), 2);
@@ -28,13 +28,13 @@ final class WindsEdges {
             e.due("arms(1, 1)", x.arms(1, 1), 2);
             e.due("paid(0, 0)", x.paid(0, 0), 3);
         });
-        s.test("Section 3", words, "nothing is changed by looking", e -> {
+        s.test("Section 3, promises 13 to 16", words, "nothing is changed by looking", e -> {
             Twins.untouched(e, Twins::lively, "when(11)", x -> x.when(11));
             Twins.untouched(e, Twins::lively, "pass(0, 11, 0)", x -> x.pass(0, 11, 0));
             Twins.untouched(e, Twins::lively, "arms(11, 1)", x -> x.arms(11, 1));
             Twins.untouched(e, Twins::lively, "paid(0, 0)", x -> x.paid(0, 0));
         });
-        s.test("Section 3", words, "the same, asked twice", e -> {
+        s.test("Section 3, promises 13 to 16", words, "the same, asked twice", e -> {
             ToupeeWind x = Twins.lively();
             for (int cell = 0; cell < 12; cell++) {
                 e.due("when(" + cell + ")", x.when(cell), x.when(cell));
@@ -45,7 +45,7 @@ final class WindsEdges {
 
     private static void when(Sentences s) {
         String words = "WHEN: at which HOURS of the next 8 (bits) THE WIND comes to a CELL.";
-        s.test("Section 3", words, "not now, in the first, in the eighth, not in the ninth", e -> {
+        s.test("Section 3, promise 13", words, "not now, in the first, in the eighth, not in the ninth", e -> {
             ToupeeWind x = new ToupeeWind();
             e.due("where it is: when(0)", x.when(0), 0);
             for (int cell = 1; cell <= 8; cell++) {
@@ -53,7 +53,7 @@ final class WindsEdges {
             }
             e.due("the ninth: when(9)", x.when(9), 0);
         });
-        s.test("Section 3", words, "from each hour on, the hours go round", e -> {
+        s.test("Section 3, promise 13", words, "from each hour on, the hours go round", e -> {
             for (int hour = 0; hour < 8; hour++) {
                 ToupeeWind x = new ToupeeWind();
                 Expect.text(x, ".".repeat(hour)).done();
@@ -64,7 +64,7 @@ final class WindsEdges {
                 }
             }
         });
-        s.test("Section 3", words, "it turns at both ends; it comes twice; it comes in all", e -> {
+        s.test("Section 3, promise 13", words, "it turns at both ends; it comes twice; it comes in all", e -> {
             ToupeeWind x = new ToupeeWind();
             x.wind(10, 0, 1);
             e.due("when(11)", x.when(11), 1 << 1);
@@ -86,21 +86,21 @@ final class WindsEdges {
     private static void pass(Sentences s) {
         String words = "PASS from a CELL to a CELL: each hour one who has STATED nothing goes a CELL, or stays, ahead of it,"
             + " and must not be where THE WIND comes then:";
-        s.test("Section 3", words, "a cell an hour, from end to end", e -> {
+        s.test("Section 3, promise 14", words, "a cell an hour, from end to end", e -> {
             ToupeeWind x = new ToupeeWind();
             e.due("against it: pass(11, 0, 0)", x.pass(11, 0, 0), 11);
             e.due("with it: pass(2, 11, 0)", x.pass(2, 11, 0), 9);
             x.wind(11, 1, 1);
             e.due("against it: pass(0, 11, 0)", x.pass(0, 11, 0), 11);
         });
-        s.test("Section 3", words, "ahead of it: he leaves a cell in the hour in which it comes there", e -> {
+        s.test("Section 3, promise 14", words, "ahead of it: he leaves a cell in the hour in which it comes there", e -> {
             ToupeeWind x = new ToupeeWind();
             x.wind(5, 1, 1);
             e.due("he takes its place: pass(4, 5, 0)", x.pass(4, 5, 0), 1);
             x.wind(5, 0, 1);
             e.due("he runs ahead of it: pass(6, 7, 0)", x.pass(6, 7, 0), 1);
         });
-        s.test("Section 3", words, "he must not go where it comes, nor stay there", e -> {
+        s.test("Section 3, promise 14", words, "he must not go where it comes, nor stay there", e -> {
             ToupeeWind x = new ToupeeWind();
             x.wind(5, 1, 1);
             e.due("pass(3, 4, 0)", x.pass(3, 4, 0), 2);
@@ -108,7 +108,7 @@ final class WindsEdges {
             x.wind(0, 0, 3);
             e.due("he can not stay: pass(5, 8, 0)", x.pass(5, 8, 0), 7);
         });
-        s.test("Section 3", words, "there is no cell below 0 and none above 11 to wait on", e -> {
+        s.test("Section 3, promise 14", words, "there is no cell below 0 and none above 11 to wait on", e -> {
             ToupeeWind x = new ToupeeWind();
             x.wind(5, 1, 9);
             e.due("4, 3, 2, 1, 0 and back: pass(0, 1, 0)", x.pass(0, 1, 0), NONE);
@@ -117,20 +117,20 @@ final class WindsEdges {
             e.due("7, 8, 9, 10, 11 and back: pass(11, 10, 0)", x.pass(11, 10, 0), NONE);
             e.due("pass(11, 0, 0)", x.pass(11, 0, 0), NONE);
         });
-        s.test("Section 3", words, "it is no matter who is where, and what they have stated", e -> {
+        s.test("Section 3, promise 14", words, "it is no matter who is where, and what they have stated", e -> {
             ToupeeWind x = new ToupeeWind();
             x.walker(0, 0, 255, 0);
             e.due("pass(0, 1, 0)", x.pass(0, 1, 0), 2);
         });
         String earliest = "behind how many hours he is there at the earliest (0: he is);";
-        s.test("Section 3", earliest, "0 on each cell, whatever blows", e -> {
+        s.test("Section 3, promise 14", earliest, "0 on each cell, whatever blows", e -> {
             ToupeeWind x = new ToupeeWind();
             x.wind(4, 1, 9);
             for (int cell = 0; cell < 12; cell++) {
                 e.due("pass(" + cell + ", " + cell + ", 0)", x.pass(cell, cell, 0), 0);
             }
         });
-        s.test("Section 3", earliest, "1, and 24, the most that there are", e -> {
+        s.test("Section 3, promise 14", earliest, "1, and 24, the most that there are", e -> {
             ToupeeWind x = new ToupeeWind();
             e.due("pass(5, 6, 0)", x.pass(5, 6, 0), 1);
             x.wind(4, 1, 5);
@@ -140,13 +140,13 @@ final class WindsEdges {
 
     private static void passFirst(Sentences s) {
         String words = "whether he first stays (0), goes up (1), or down (2), the least by which it is so early; NONE.";
-        s.test("Section 3", words, "only one is so early", e -> {
+        s.test("Section 3, promise 14", words, "only one is so early", e -> {
             ToupeeWind x = new ToupeeWind();
             e.due("stays: pass(0, 1, 1)", x.pass(0, 1, 1), 0);
             e.due("up: pass(5, 6, 1)", x.pass(5, 6, 1), 1);
             e.due("down: pass(5, 4, 1)", x.pass(5, 4, 1), 2);
         });
-        s.test("Section 3", words, "the least of two and of three", e -> {
+        s.test("Section 3, promise 14", words, "the least of two and of three", e -> {
             ToupeeWind x = new ToupeeWind();
             x.wind(4, 1, 1);
             e.due("0 and 1: pass(0, 2, 0)", x.pass(0, 2, 0), 3);
@@ -161,7 +161,7 @@ final class WindsEdges {
             e.due("all: pass(5, 3, 0)", x.pass(5, 3, 0), 4);
             e.due("all: pass(5, 3, 1)", x.pass(5, 3, 1), 0);
         });
-        s.test("Section 3", words, "NONE: he is there, or can not be", e -> {
+        s.test("Section 3, promise 14", words, "NONE: he is there, or can not be", e -> {
             ToupeeWind x = new ToupeeWind();
             e.due("he is: pass(3, 3, 1)", x.pass(3, 3, 1), NONE);
             x.wind(0, 0, 9);
@@ -180,7 +180,7 @@ final class WindsEdges {
 
     private static void arms(Sentences s) {
         String who = "ARMS: each one who is at peace can HOLD one other, who is not at peace, no more than d CELLS (0 to 11) off him;";
-        s.test("Section 3", who, "d cells off, and one more, up and down, from 0 to 11", e -> {
+        s.test("Section 3, promise 15", who, "d cells off, and one more, up and down, from 0 to 11", e -> {
             for (int d = 0; d <= 11; d++) {
                 ToupeeWind x = spread(0, d, 11, 11, 11, 11);
                 x.walker(0, 0, 1, 3);
@@ -192,13 +192,13 @@ final class WindsEdges {
                 e.due("down, " + d + " off: arms(" + (d - 1) + ", 1)", d == 0 ? 0 : x.arms(d - 1, 1), 0);
             }
         });
-        s.test("Section 3", who, "one at peace holds one, of five", e -> {
+        s.test("Section 3, promise 15", who, "one at peace holds one, of five", e -> {
             ToupeeWind x = spread(4, 4, 4, 4, 4, 4);
             x.walker(5, 4, 1, 0);
             e.due("arms(0, 0)", x.arms(0, 0), 1);
             e.due("arms(0, 1)", x.arms(0, 1), 1);
         });
-        s.test("Section 3", who, "3 and 4 owed, the hour and another one", e -> {
+        s.test("Section 3, promise 15", who, "3 and 4 owed, the hour and another one", e -> {
             ToupeeWind x = spread(4, 4, 4, 4, 4, 4);
             x.walker(0, 4, 1, 4);
             e.due("4 owed: arms(11, 0)", x.arms(11, 0), 0);
@@ -207,7 +207,7 @@ final class WindsEdges {
             x.walker(0, 4, 1, 3);
             e.due("3 owed: arms(11, 1)", x.arms(11, 1), 2);
         });
-        s.test("Section 3", who, "nobody at peace, all at peace", e -> {
+        s.test("Section 3, promise 15", who, "nobody at peace, all at peace", e -> {
             ToupeeWind x = spread(4, 4, 4, 4, 4, 4);
             e.due("nobody: arms(11, 0)", x.arms(11, 0), 0);
             e.due("nobody: arms(11, 1)", x.arms(11, 1), 0);
@@ -218,14 +218,14 @@ final class WindsEdges {
             e.due("all: arms(11, 1)", x.arms(11, 1), 0);
         });
         String one = "each of these is HELD by one at most: how many can be at the most;";
-        s.test("Section 3", one, "five at peace and one other; three and three", e -> {
+        s.test("Section 3, promise 15", one, "five at peace and one other; three and three", e -> {
             ToupeeWind x = spread(4, 4, 4, 4, 4, 4);
             for (int walker = 0; walker < 6; walker++) {
                 e.due(walker + " at peace: arms(0, 0)", x.arms(0, 0), Math.min(walker, 6 - walker));
                 x.walker(walker, 4, 1, 0);
             }
         });
-        s.test("Section 3", one, "who can hold more leaves one to who can not", e -> {
+        s.test("Section 3, promise 15", one, "who can hold more leaves one to who can not", e -> {
             // C reaches A and F, D reaches A alone, E reaches F and B.
             ToupeeWind x = spread(1, 7, 3, 0, 5, 4);
             x.walker(2, 3, 1, 0);
@@ -235,7 +235,7 @@ final class WindsEdges {
             e.due("arms(2, 1)", x.arms(2, 1), 1 | 2 | 32);
         });
         String which = "which, the least as bits of as many.";
-        s.test("Section 3", which, "the least of as many, not the least of all", e -> {
+        s.test("Section 3, promise 15", which, "the least of as many, not the least of all", e -> {
             ToupeeWind x = spread(4, 4, 4, 4, 4, 4);
             x.walker(0, 4, 1, 0);
             x.walker(1, 4, 1, 0);
@@ -245,7 +245,7 @@ final class WindsEdges {
             x.walker(1, 6, 1, 0);
             e.due("C and F: arms(1, 1)", x.arms(1, 1), 4 | 32);
         });
-        s.test("Section 3", which, "A alone comes ahead of F alone; two of three", e -> {
+        s.test("Section 3, promise 15", which, "A alone comes ahead of F alone; two of three", e -> {
             ToupeeWind x = spread(3, 4, 9, 9, 9, 5);
             x.walker(1, 4, 1, 0);
             e.due("A or F: arms(1, 1)", x.arms(1, 1), 1);
@@ -258,13 +258,13 @@ final class WindsEdges {
 
     private static void paid(Sentences s) {
         String words = "PAID: of a WALKER the fewest GATES, FLAGS, SHEETS (of his) by which he OWES nothing: how many;";
-        s.test("Section 3", words, "nothing is owed", e -> {
+        s.test("Section 3, promise 16", words, "nothing is owed", e -> {
             ToupeeWind x = new ToupeeWind();
             x.purse(3, 0, 0, 0);
             e.due("paid(3, 0)", x.paid(3, 0), 0);
             e.due("paid(3, 1)", x.paid(3, 1), 0);
         });
-        s.test("Section 3", words, "just enough, and more than that", e -> {
+        s.test("Section 3, promise 16", words, "just enough, and more than that", e -> {
             ToupeeWind x = new ToupeeWind();
             x.likes(3, 0, 0);
             for (int owes = 1; owes <= 6; owes++) {
@@ -272,7 +272,7 @@ final class WindsEdges {
                 e.due("owing " + owes + ": paid(3, 0)", x.paid(3, 0), owes <= 3 ? 1 : 2);
             }
         });
-        s.test("Section 3", words, "of his: all of them, and nine of one", e -> {
+        s.test("Section 3, promise 16", words, "of his: all of them, and nine of one", e -> {
             ToupeeWind x = new ToupeeWind();
             x.walker(3, 3, 0, 6);
             e.due("all: paid(3, 0)", x.paid(3, 0), 6);
@@ -286,8 +286,22 @@ final class WindsEdges {
             x.purse(3, 0, 9, 0);
             e.due("nine flags: paid(3, 1)", x.paid(3, 1), 90);
         });
+        s.test("Section 3, promise 16", words, "each kind by what it is liked by", e -> {
+            ToupeeWind x = new ToupeeWind();
+            x.walker(3, 3, 0, 3);
+            x.likes(3, 1, 2);
+            e.due("a gate: paid(3, 1)", x.paid(3, 1), 100);
+            x.likes(2, 3, 1);
+            e.due("a flag: paid(3, 1)", x.paid(3, 1), 10);
+            x.likes(1, 2, 3);
+            e.due("a sheet: paid(3, 1)", x.paid(3, 1), 1);
+            x.likes(0, 2, 0);
+            e.due("flags alone: paid(3, 1)", x.paid(3, 1), 20);
+            x.likes(0, 0, 2);
+            e.due("sheets alone: paid(3, 1)", x.paid(3, 1), 2);
+        });
         String which = "which, as 100 times GATES, 10 times FLAGS, and SHEETS, the least of as few; NONE.";
-        s.test("Section 3", which, "sheets ahead of flags ahead of gates, if as few", e -> {
+        s.test("Section 3, promise 16", which, "sheets ahead of flags ahead of gates, if as few", e -> {
             ToupeeWind x = new ToupeeWind();
             x.walker(3, 3, 0, 3);
             e.due("paid(3, 1)", x.paid(3, 1), 12);
@@ -302,7 +316,7 @@ final class WindsEdges {
             x.walker(3, 3, 0, 3);
             e.due("a gate alone is fewer than two sheets: paid(3, 1)", x.paid(3, 1), 100);
         });
-        s.test("Section 3", which, "NONE: one is left to owe, it likes nothing, he has nothing", e -> {
+        s.test("Section 3, promise 16", which, "NONE: one is left to owe, it likes nothing, he has nothing", e -> {
             ToupeeWind x = new ToupeeWind();
             x.walker(3, 3, 0, 7);
             x.walker(4, 4, 0, 1);
